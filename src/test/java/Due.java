@@ -184,19 +184,28 @@ final class Due {
         }
     }
 
-    /** Puts the bytes on an empty tape. */
+    /** Puts the bytes alone on the tape. */
     static void lay(StreamPair x, byte[] row) {
         x.end(0);
-        byte[] whole = new byte[(row.length + 19) / 20 * 20];
+        byte[] whole = new byte[Math.max(20, row.length)];
         System.arraycopy(row, 0, whole, 0, row.length);
-        int[] five = new int[5];
-        for (int at = 0; at < whole.length; at += 20) {
-            for (int i = 0; i < 20; i++) {
-                five[i / 4] = five[i / 4] << 8 | whole[at + i] & 255;
-            }
-            x.feed(five[0], five[1], five[2], five[3], five[4]);
+        int at = 0;
+        for (; at + 20 <= whole.length; at += 20) {
+            feed20(x, whole, at);
+        }
+        if (at < row.length) {
+            x.end(row.length - 20);
+            feed20(x, whole, row.length - 20);
         }
         x.end(row.length);
+    }
+
+    private static void feed20(StreamPair x, byte[] row, int at) {
+        int[] five = new int[5];
+        for (int i = 0; i < 20; i++) {
+            five[i / 4] = five[i / 4] << 8 | row[at + i] & 255;
+        }
+        x.feed(five[0], five[1], five[2], five[3], five[4]);
     }
 
     /** The bytes come to the end at once, past all that is on its way. */
@@ -256,5 +265,41 @@ final class Due {
         x.deliver(0);
         is("state of END 0 when joined", x.about(0, 0), 4);
         is("state of END 1 when joined", x.about(1, 0), 4);
+    }
+
+    /** Which end inState brings into that state: only END 1 can be in LISTEN and SYN_RCVD. */
+    static int endIn(int state) {
+        return state == 1 || state == 3 ? 1 : 0;
+    }
+
+    /** A pair with ISS 1000 and 5000 whose end endIn(state) is in that state, with nothing on its way. */
+    static StreamPair inState(int state) {
+        StreamPair x = state <= 3 ? new StreamPair() : joined(1000, 5000);
+        if (state <= 3) {
+            x.open(1000, 5000);
+        }
+        if (state == 0) {
+            x.close(0);
+        } else if (state == 3) {
+            x.deliver(0);
+        } else if (state == 5 || state == 6 || state == 8 || state == 10) {
+            x.close(0);
+        } else if (state == 7 || state == 9) {
+            x.close(1);
+            x.deliver(0);
+        }
+        if (state == 6 || state == 10) {
+            deliverAll(x);
+        }
+        if (state == 8 || state == 10) {
+            x.close(1);
+            x.deliver(x.count(1) - 1);
+        }
+        if (state == 9) {
+            x.close(0);
+        }
+        dropAll(x);
+        is("state", x.about(endIn(state), 0), state);
+        return x;
     }
 }

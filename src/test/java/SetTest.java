@@ -1,0 +1,109 @@
+import java.util.NoSuchElementException;
+
+/** Promise 5, and what ROOM and MSS do. */
+public final class SetTest {
+    public static void main(String[] args) {
+        valuesBefore();
+        wrongInputs();
+        roomShrinksAndGrows();
+        roomBeforeTheSyn();
+        mssCountsFromTheNextSyn();
+        lesserMssCounts();
+        Due.finish();
+    }
+
+    private static void valuesBefore() {
+        StreamPair x = new StreamPair();
+        for (int e = 0; e < 2; e++) {
+            Due.is("ROOM at first", x.set(e, 0, 0), 65535);
+            Due.is("ROOM", x.set(e, 0, 65535), 0);
+            Due.is("ROOM", x.set(e, 0, 17 + e), 65535);
+            Due.is("MSS at first", x.set(e, 1, 64), 1460);
+            Due.is("MSS", x.set(e, 1, 1460), 64);
+            Due.is("MSS", x.set(e, 1, 100 + e), 1460);
+        }
+        Due.is("ROOM of END 0", x.set(0, 0, 1), 17);
+        Due.is("ROOM of END 1", x.set(1, 0, 1), 18);
+        Due.is("MSS of END 0", x.set(0, 1, 70), 100);
+        Due.is("MSS of END 1", x.set(1, 1, 70), 101);
+    }
+
+    private static void wrongInputs() {
+        StreamPair x = Due.joined(1, 2);
+        int[] noEnds = {-1, 2, Integer.MAX_VALUE, Integer.MIN_VALUE};
+        for (int e : noEnds) {
+            Due.throwing("set of no end", NoSuchElementException.class, x, () -> x.set(e, 0, 5));
+            Due.throwing("set of nothing right", NoSuchElementException.class, x, () -> x.set(e, 7, -5));
+        }
+        int[][] wrong = {{0, -1}, {0, 65536}, {1, 63}, {1, 1461}, {1, 0}, {2, 100}, {-1, 100}, {0, Integer.MIN_VALUE},
+            {1, Integer.MAX_VALUE}, {Integer.MAX_VALUE, 100}};
+        for (int[] pair : wrong) {
+            Due.throwing("set", IllegalArgumentException.class, x, () -> x.set(0, pair[0], pair[1]));
+        }
+        Due.is("ROOM", x.set(0, 0, 1), 65535);
+        Due.is("MSS", x.set(0, 1, 64), 1460);
+    }
+
+    private static void roomShrinksAndGrows() {
+        StreamPair x = Due.joined(0, 0);
+        Due.is("window at first", x.about(1, 9), 65535);
+        x.set(1, 0, 10);
+        Due.is("the window once told stays", x.about(1, 9), 65535);
+        Due.write(x, 0, 30);
+        x.deliver(0);
+        Due.is("the window told does not go back", Due.window(x, 0), 65505);
+        Due.is("unread above ROOM", x.about(1, 2), 30);
+        x.deliver(0);
+        Due.is("FAR", x.about(0, 8), 65505);
+        x.set(1, 0, 65535);
+        Due.is("set alone tells nothing", x.about(1, 9), 65505);
+        x.read(1, 7);
+        Due.is("not worth an ACK", x.count(1), 0);
+    }
+
+    private static void roomBeforeTheSyn() {
+        StreamPair x = new StreamPair();
+        x.set(0, 0, 0);
+        x.set(1, 0, 0);
+        x.open(0, 0);
+        Due.is("window of the SYN", Due.window(x, 0), 0);
+        x.set(0, 0, 700);
+        x.deliver(0);
+        Due.is("window of the SYN and ACK", Due.window(x, 0), 0);
+        x.deliver(0);
+        Due.is("window of the ACK", Due.window(x, 0), 700);
+        x.tick(1000);
+        Due.is("END 1 sends its SYN again", Due.flags(x, 1), Due.SYN | Due.ACK);
+        x.deliver(0);
+        Due.is("state", x.about(1, 0), 4);
+        Due.is("FAR", x.about(1, 8), 700);
+        Due.is("FAR", x.about(0, 8), 0);
+    }
+
+    private static void mssCountsFromTheNextSyn() {
+        StreamPair x = Due.joined(0, 0);
+        x.set(0, 1, 100);
+        Due.write(x, 0, 3000);
+        Due.is("SEGMENT stays", x.seen(0, -1), 1480);
+        x.open(0, 0);
+        Due.is("the next SYN tells it", Due.number(x, 0, 20, 4), 0x02040064);
+        x.set(0, 1, 200);
+        x.tick(1000);
+        Due.is("and the next", Due.number(x, 1, 20, 4), 0x020400C8);
+    }
+
+    private static void lesserMssCounts() {
+        int[][] both = {{64, 1460}, {1460, 64}, {100, 200}, {200, 100}, {1460, 1460}};
+        for (int[] mss : both) {
+            StreamPair x = new StreamPair();
+            x.set(0, 1, mss[0]);
+            x.set(1, 1, mss[1]);
+            Due.join(x, 5, 6);
+            int segment = Math.min(mss[0], mss[1]);
+            Due.is("CWND of END 0", x.about(0, 4), 4 * segment);
+            Due.is("CWND of END 1", x.about(1, 4), 4 * segment + 1);
+            Due.write(x, 0, 1500);
+            Due.is("data of a segment", x.seen(0, -1), 20 + segment);
+        }
+    }
+}
