@@ -1,0 +1,217 @@
+import java.util.NoSuchElementException;
+
+/** Promises 11 to 16: deliver, drop, copy, flip, inject, seen. */
+public final class NetworkTest {
+    private static final int[] NO_SEGMENTS = {-1, 3, Integer.MAX_VALUE, Integer.MIN_VALUE};
+
+    public static void main(String[] args) {
+        wrongSegments();
+        deliversOneOfSeveral();
+        drops();
+        copies();
+        flips();
+        flipsOfShortSegments();
+        mendsOddLengths();
+        injects();
+        sees();
+        fullNetwork();
+        fullNetworkTakesAnswers();
+        Due.finish();
+    }
+
+    private static StreamPair withThree() {
+        StreamPair x = Due.joined(1000, 5000);
+        Due.write(x, 0, 1);
+        Due.write(x, 0, 2);
+        Due.write(x, 0, 3);
+        Due.is("on their way", x.count(1), 3);
+        return x;
+    }
+
+    private static void wrongSegments() {
+        StreamPair x = withThree();
+        for (int k : NO_SEGMENTS) {
+            Due.throwing("deliver", NoSuchElementException.class, x, () -> x.deliver(k));
+            Due.throwing("drop", NoSuchElementException.class, x, () -> x.drop(k));
+            Due.throwing("copy", NoSuchElementException.class, x, () -> x.copy(k));
+            Due.throwing("flip", NoSuchElementException.class, x, () -> x.flip(k, 0, 1, true));
+            Due.throwing("flip of no place", NoSuchElementException.class, x, () -> x.flip(k, -1, 1, true));
+            Due.throwing("seen", NoSuchElementException.class, x, () -> x.seen(k, 0));
+            Due.throwing("seen of no place", NoSuchElementException.class, x, () -> x.seen(k, -3));
+        }
+    }
+
+    private static void deliversOneOfSeveral() {
+        StreamPair x = withThree();
+        Due.is("deliver(1): one went, an ACK came", x.deliver(1), 3);
+        Due.is("the first stays", Due.seq(x, 0), 1001);
+        Due.is("the third is the second", Due.seq(x, 1), 1004);
+        Due.is("the newest is last", x.seen(2, -2), 0);
+        Due.is("kept", x.about(1, 15), 2);
+        Due.is("deliver(2) of the ACK", x.deliver(2), 2);
+        Due.is("SAME", x.about(0, 12), 1);
+    }
+
+    private static void drops() {
+        StreamPair x = withThree();
+        Due.is("drop(1)", x.drop(1), 2);
+        Due.is("the first stays", Due.seq(x, 0), 1001);
+        Due.is("the third is the second", Due.seq(x, 1), 1004);
+        Due.is("drop(1)", x.drop(1), 1);
+        Due.is("drop(0)", x.drop(0), 0);
+        Due.is("it is not lost by want of room", x.count(4), 0);
+        Due.is("nothing came", x.about(1, 2) + x.about(1, 15), 0);
+    }
+
+    private static void copies() {
+        StreamPair x = withThree();
+        byte[] second = Due.bytes(x, 1);
+        Due.is("copy(1)", x.copy(1), 4);
+        Due.same("the copy", Due.hex(Due.bytes(x, 3)), Due.hex(second));
+        Due.is("it goes there too", x.seen(3, -2), 1);
+        Due.is("sent is as before", x.about(0, 10), 5);
+        x.flip(3, 20, 255, true);
+        Due.same("the first stays as it is when the copy is altered", Due.hex(Due.bytes(x, 1)), Due.hex(second));
+        x.flip(1, 0, 7, false);
+        Due.is("and the copy", x.seen(3, 0), second[0] & 255);
+        Due.is("deliver of one", x.deliver(0), 4);
+        Due.is("copy of an ACK", x.copy(3), 5);
+        Due.is("it goes to END 0", x.seen(4, -2), 0);
+    }
+
+    private static void flips() {
+        StreamPair x = withThree();
+        int before = x.seen(2, 21);
+        int checksum = Due.number(x, 2, 16, 2);
+        Due.is("flip without mending", x.flip(2, 21, 0x55, false), checksum);
+        Due.is("the byte", x.seen(2, 21), before ^ 0x55);
+        int mended = x.flip(2, 21, 0, true);
+        Due.is("mended", mended, Due.number(x, 2, 16, 2));
+        Due.is("sum", Due.sum(Due.bytes(x, 2)), 0xFFFF);
+        Due.is("flip back", x.flip(2, 21, 0x55, true), checksum);
+        Due.is("low 8 bits alone", x.flip(2, 21, 0x7FFFFF00, true), checksum);
+        Due.is("the byte", x.seen(2, 21), before);
+        Due.is("all 8", x.flip(2, 21, -1, false), checksum);
+        Due.is("the byte", x.seen(2, 21), before ^ 255);
+        Due.is("flip of the checksum", x.flip(2, 16, 0x80, false), checksum ^ 0x8000);
+        Due.is("and of its low byte", x.flip(2, 17, 1, false), checksum ^ 0x8001);
+        x.flip(2, 21, 255, false);
+        Due.is("mended whatever it was", x.flip(2, 16, 0x11, true), checksum);
+        int length = x.seen(2, -1);
+        Due.is("the last place", x.flip(2, length - 1, 0, false), checksum);
+        int[] noPlaces = {-1, -2, length, Integer.MAX_VALUE, Integer.MIN_VALUE};
+        for (int at : noPlaces) {
+            Due.throwing("flip at " + at, IndexOutOfBoundsException.class, x, () -> x.flip(2, at, 1, true));
+        }
+    }
+
+    private static void flipsOfShortSegments() {
+        for (int n = 0; n <= 21; n++) {
+            int size = n;
+            StreamPair x = new StreamPair();
+            Due.lay(x, Due.pattern(1, n));
+            x.inject(0);
+            Due.throwing("flip behind its end", IndexOutOfBoundsException.class, x, () -> x.flip(0, size, 1, true));
+            if (n == 0) {
+                continue;
+            }
+            int before = n < 18 ? -1 : Due.number(x, 0, 16, 2);
+            Due.is("flip", x.flip(0, 0, 1, false), before);
+            int after = x.flip(0, 0, 1, true);
+            Due.is("flip with mending", after, n < 18 ? -1 : Due.number(x, 0, 16, 2));
+            Due.is("the byte", x.seen(0, 0), Due.patternAt(1));
+            if (n >= 18) {
+                Due.is("sum", Due.sum(Due.bytes(x, 0)), 0xFFFF);
+            } else {
+                Due.same("the bytes", Due.hex(Due.bytes(x, 0)), Due.hex(Due.pattern(1, n)));
+            }
+        }
+    }
+
+    private static void mendsOddLengths() {
+        StreamPair x = Due.joined(0, 0);
+        Due.lay(x, new byte[] {1, 2, (byte) 0xF0});
+        x.write(0);
+        x.flip(0, 22, 0x0F, true);
+        Due.is("sum with a 0 behind", Due.sum(Due.bytes(x, 0)), 0xFFFF);
+        x.deliver(0);
+        Due.is("read", x.read(1, 7), 3L << 56 | 0x0102FF);
+    }
+
+    private static void injects() {
+        StreamPair x = withThree();
+        int[] noEnds = {-1, 2, Integer.MAX_VALUE, Integer.MIN_VALUE};
+        Due.lay(x, Due.pattern(3, 1485));
+        for (int e : noEnds) {
+            Due.throwing("inject to no end", NoSuchElementException.class, x, () -> x.inject(e));
+        }
+        Due.throwing("inject of 1485 bytes", IllegalArgumentException.class, x, () -> x.inject(0));
+        Due.is("the tape stays", x.count(3), 1485);
+        x.end(1484);
+        Due.is("inject of 1484 bytes", x.inject(0), 4);
+        Due.is("the tape is taken", x.count(3), 0);
+        Due.is("its length", x.seen(3, -1), 1484);
+        Due.is("it goes to", x.seen(3, -2), 0);
+        Due.same("its bytes", Due.hex(Due.bytes(x, 3)), Due.hex(Due.pattern(3, 1484)));
+        Due.is("inject of nothing", x.inject(1), 5);
+        Due.is("its length", x.seen(4, -1), 0);
+        Due.is("it goes to", x.seen(4, -2), 1);
+        Due.is("deliver of nothing", x.deliver(4), 4);
+        Due.is("dropped in step 1", x.about(1, 16), 1);
+        Due.is("injected is not sent", x.about(1, 10), 1);
+        Due.comes(x, 1, Due.ACK, 1001, 5001, 65535, 5);
+        Due.is("an invented segment counts as any other", x.about(1, 2), 5);
+    }
+
+    private static void sees() {
+        StreamPair x = Due.joined(0x01020304, 0x05060708);
+        Due.write(x, 0, 2);
+        Due.is("length", x.seen(0, -1), 22);
+        Due.is("goes to", x.seen(0, -2), 1);
+        Due.is("first", x.seen(0, 0), 0x9C);
+        Due.is("SEQ", x.seen(0, 7), 0x05);
+        Due.is("window, above 127", x.seen(0, 14), 255);
+        Due.is("last", x.seen(0, 21), Due.patternAt(1));
+        int[] noPlaces = {-3, 22, Integer.MAX_VALUE, Integer.MIN_VALUE};
+        for (int at : noPlaces) {
+            Due.throwing("seen at " + at, IndexOutOfBoundsException.class, x, () -> x.seen(0, at));
+        }
+        String before = Due.everything(x);
+        Due.same("seeing changes nothing", Due.everything(x), before);
+    }
+
+    private static void fullNetwork() {
+        StreamPair x = withThree();
+        for (int n = 4; n <= 512; n++) {
+            Due.is("copy", x.copy(0), n);
+        }
+        Due.is("lost", x.count(4), 0);
+        Due.is("copy without room", x.copy(0), 512);
+        Due.is("lost", x.count(4), 1);
+        Due.is("write without room", Due.write(x, 0, 4), 4);
+        Due.is("lost", x.count(4), 2);
+        Due.is("sent", x.about(0, 10), 6);
+        Due.is("NXT follows", x.about(0, 14), 10);
+        x.feed(1, 2, 3, 4, 5);
+        Due.is("inject without room", x.inject(0), 512);
+        Due.is("the tape is taken", x.count(3), 0);
+        Due.is("lost", x.count(4), 3);
+        x.tick(200);
+        Due.is("the timer's is lost too", x.count(4), 4);
+        Due.is("the last is a copy", Due.seq(x, 511), 1001);
+        Due.is("drop", x.drop(0), 511);
+        Due.is("copy", x.copy(0), 512);
+        Due.is("lost", x.count(4), 4);
+    }
+
+    /** What is delivered is not on its way any more, so there is room for one answer. */
+    private static void fullNetworkTakesAnswers() {
+        StreamPair x = withThree();
+        while (x.count(1) < 512) {
+            x.copy(0);
+        }
+        Due.is("deliver", x.deliver(0), 512);
+        Due.is("lost", x.count(4), 0);
+        Due.segment("the answer", x, 511, 0, 20, Due.ACK, 5001, 1002, 65534);
+    }
+}
