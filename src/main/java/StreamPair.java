@@ -84,10 +84,9 @@ public final class StreamPair {
         connections = number + 1;
         int port = OPENING_PORT_FIRST + Math.floorMod(number, OPENING_PORTS);
         network.forgetAll();
-        opener.begin(first, port, WAITING_PORT);
-        waiter.begin(second, WAITING_PORT, port);
-        waiter.state = LISTEN;
-        opener.connects();
+        opener.begin(SYN_SENT, first, port, WAITING_PORT);
+        waiter.begin(LISTEN, second, WAITING_PORT, port);
+        opener.sendFirstSyn();
         return number;
     }
 
@@ -847,22 +846,17 @@ public final class StreamPair {
             this.network = network;
         }
 
-        void begin(int iss, int ownPort, int farPort) {
+        void begin(int firstState, int iss, int ownPort, int farPort) {
+            state = firstState;
             supply.begin(iss);
             arrivals.begin();
             pace.begin();
             crowd.begin();
-            state = CLOSED;
             ending = NO_ENDING;
             sent = 0;
             refused = 0;
             port = ownPort;
             otherPort = farPort;
-        }
-
-        void connects() {
-            state = SYN_SENT;
-            sendFirstSyn();
         }
 
         boolean mayClose() {
@@ -911,7 +905,7 @@ public final class StreamPair {
             send(0, supply.nxt, 0);
         }
 
-        private void sendFirstSyn() {
+        void sendFirstSyn() {
             sendNext(SYN, 0);
             pace.startTimer(clock.time, pace.rto);
         }

@@ -4,6 +4,7 @@ public final class CrowdTest {
         roundTrips();
         rtoIsClamped();
         notTimedTwice();
+        onlyAtOrBeyondWhatIsTimed();
         slowStart();
         fastRetransmission();
         whatIsNotTheSame();
@@ -83,6 +84,17 @@ public final class CrowdTest {
         x.tick(1000);
         Due.deliverAll(x);
         Due.is("what was sent again is not TIMED", x.about(0, 13), 14);
+    }
+
+    private static void onlyAtOrBeyondWhatIsTimed() {
+        StreamPair x = Due.joined(0, 0);
+        Due.write(x, 0, 10);
+        x.tick(100);
+        Due.comes(x, 0, Due.ACK, 1, 10, 65535, 0);
+        Due.is("one byte too few", x.about(0, 13), 0);
+        x.tick(60);
+        Due.comes(x, 0, Due.ACK, 1, 11, 65535, 0);
+        Due.is("all of it", x.about(0, 13), 160 / 8);
     }
 
     private static void slowStart() {

@@ -4,6 +4,7 @@ public final class LaterStepsTest {
         step10BeyondMax();
         step10Progress();
         step11Window();
+        step11NumberOfTheSyn();
         step11Tries();
         step12FinAcknowledged();
         step13Data();
@@ -71,6 +72,20 @@ public final class LaterStepsTest {
         Due.is("but its ACK number counts", x.about(0, 3), 0);
         Due.comes(x, 0, Due.ACK, 5003, 1021, 900, 0);
         Due.is("the SEQ again", x.about(0, 8), 900);
+    }
+
+    /** WL2 is the ACK number of the segment that told the window, were it a SYN without ACK. */
+    private static void step11NumberOfTheSyn() {
+        int[] numbers = {5000, 5001, 5002, 6000};
+        for (int number : numbers) {
+            StreamPair x = Due.inState(1);
+            Due.comes(x, 1, Due.SYN, 1000, number, 50, 0);
+            Due.comes(x, 1, Due.ACK, 1000, 5001, 777, 3);
+            Due.is("ESTABLISHED", x.about(1, 0), 4);
+            Due.is("FAR", x.about(1, 8), number <= 5001 ? 777 : 50);
+            Due.comes(x, 1, Due.ACK, 1001, 5001, 888, 3);
+            Due.is("FAR with a newer SEQ", x.about(1, 8), 888);
+        }
     }
 
     private static void step11Tries() {

@@ -16,6 +16,7 @@ public final class NetworkTest {
         sees();
         fullNetwork();
         fullNetworkTakesAnswers();
+        nothingOldShows();
         Due.finish();
     }
 
@@ -202,6 +203,21 @@ public final class NetworkTest {
         Due.is("drop", x.drop(0), 511);
         Due.is("copy", x.copy(0), 512);
         Due.is("lost", x.count(4), 4);
+    }
+
+    /** Rows of segments that are gone serve again: nothing of the old ones may show. */
+    private static void nothingOldShows() {
+        StreamPair x = Due.joined(1000, 5000);
+        byte[] full = new byte[1484];
+        java.util.Arrays.fill(full, (byte) 0xFF);
+        Due.lay(x, full);
+        x.inject(0);
+        x.drop(0);
+        Due.write(x, 0, 3);
+        Due.segment("data", x, 0, 1, 23, Due.ACK | Due.PSH, 1001, 5001, 65535);
+        Due.throwing("seen behind its end", IndexOutOfBoundsException.class, x, () -> x.seen(0, 23));
+        x.deliver(0);
+        Due.is("read", x.read(1, 7) >>> 56, 3);
     }
 
     /** What is delivered is not on its way any more, so there is room for one answer. */

@@ -32,6 +32,11 @@ public final class NewObjectTest {
             Due.is("state", x.about(e, 0), 0);
             Due.is("sent", x.about(e, 10), 0);
         }
+        byte[] noPorts = Due.forged(0, Due.SYN, 5, 0, 100, new byte[0], new byte[0]);
+        Due.put(noPorts, 0, 4, 0);
+        Due.mend(noPorts);
+        Due.comes(x, 0, noPorts);
+        Due.is("dropped without ports", x.about(0, 16), 2);
         Due.is("no answer", x.count(1), 0);
     }
 }

@@ -1,10 +1,11 @@
 import com.sun.management.ThreadMXBean;
 import java.lang.management.ManagementFactory;
 
-/** What a run of 512 calls makes, the object itself too, stays far below 7.3 million elements. */
+/**
+ * What a run of 512 calls makes, the object itself too, stays far below 7.3 million elements. It is counted
+ * in bytes, of which an element or a field takes one or more.
+ */
 public final class RoomTest {
-    /* In bytes, of which an element or a field takes one or more. */
-    private static final long BYTES_MOST = 2500000;
     private static final ThreadMXBean THREADS = (ThreadMXBean) ManagementFactory.getThreadMXBean();
 
     private interface Run {
@@ -12,12 +13,14 @@ public final class RoomTest {
     }
 
     public static void main(String[] args) {
-        runs("making alone", 5000, x -> x.count(0));
-        runs("copies of great segments", BYTES_MOST, RoomTest::copies);
-        runs("opening again and again", BYTES_MOST, RoomTest::opens);
-        runs("a window full of bytes", BYTES_MOST, RoomTest::fullWindow);
-        runs("deliveries and copies", BYTES_MOST, RoomTest::deliveries);
-        runs("injecting", BYTES_MOST, RoomTest::injects);
+        runs("making alone", 2000, x -> x.count(0));
+        runs("copies of great segments", 1000000, RoomTest::copies);
+        runs("copying and dropping", 20000, RoomTest::drops);
+        runs("copying and delivering", 200000, RoomTest::delivers);
+        runs("opening again and again", 200000, RoomTest::opens);
+        runs("a window full of bytes", 250000, RoomTest::fullWindow);
+        runs("both ways, with timers", 500000, RoomTest::bothWays);
+        runs("injecting", 50000, RoomTest::injects);
         Due.finish();
     }
 
@@ -51,6 +54,27 @@ public final class RoomTest {
         }
     }
 
+    private static void drops(StreamPair x) {
+        join(x);
+        feed(x, 73);
+        x.write(0);
+        for (int i = 0; i < 217; i++) {
+            x.copy(0);
+            x.drop(1);
+        }
+    }
+
+    private static void delivers(StreamPair x) {
+        join(x);
+        feed(x, 73);
+        x.write(0);
+        for (int i = 0; i < 144; i++) {
+            x.copy(0);
+            x.deliver(1);
+            x.deliver(1);
+        }
+    }
+
     private static void opens(StreamPair x) {
         for (int i = 0; i < 102; i++) {
             join(x);
@@ -76,7 +100,7 @@ public final class RoomTest {
         }
     }
 
-    private static void deliveries(StreamPair x) {
+    private static void bothWays(StreamPair x) {
         join(x);
         feed(x, 200);
         x.write(0);
