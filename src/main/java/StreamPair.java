@@ -30,6 +30,7 @@ public final class StreamPair {
     private static final int FEED_BYTES = 20;
     private static final int READ_MOST = 7;
     private static final int TICK_MOST = 1000000;
+    private static final int TIME_MASK = 0x7FFFFFFF;
     private static final int ROOM_MOST = 65535;
     private static final int WAITING_MOST = 131072;
     private static final int MSS_LEAST = 64;
@@ -245,7 +246,7 @@ public final class StreamPair {
     public int count(int what) {
         switch (what) {
             case 0:
-                return (int) (clock.time & Integer.MAX_VALUE);
+                return (int) (clock.time & TIME_MASK);
             case 1:
                 return network.row.size();
             case 2:
