@@ -32,10 +32,8 @@ public final class AbortTest {
     }
 
     private static void wrongInputs() {
-        StreamPair x = Due.joined(1, 2);
-        int[] noEnds = {-1, 2, Integer.MAX_VALUE, Integer.MIN_VALUE};
-        for (int e : noEnds) {
-            Due.throwing("abort of no end", NoSuchElementException.class, x, () -> x.abort(e));
+        for (int e : Due.NO_ENDS) {
+            Due.refused("abort of no end", NoSuchElementException.class, () -> Due.joined(1, 2), x -> x.abort(e));
         }
     }
 

@@ -10,6 +10,9 @@ public final class CloseTest {
         finBehindData();
         finInClosedWindow();
         finIsLost();
+        closedBeforeTheSyn();
+        closeTwice();
+        closedEndTakesData();
         Due.finish();
     }
 
@@ -31,10 +34,10 @@ public final class CloseTest {
     }
 
     private static void wrongInputs() {
-        StreamPair x = new StreamPair();
-        int[] noEnds = {-1, 2, Integer.MAX_VALUE, Integer.MIN_VALUE};
-        for (int e : noEnds) {
-            Due.throwing("close of no end", NoSuchElementException.class, x, () -> x.close(e));
+        for (int e : Due.NO_ENDS) {
+            Due.refused("close of no end", NoSuchElementException.class, () -> Due.joined(1, 2), x -> x.close(e));
+            Due.refused("close of no end when both are CLOSED", NoSuchElementException.class, StreamPair::new,
+                    x -> x.close(e));
         }
     }
 
@@ -137,5 +140,41 @@ public final class CloseTest {
         Due.is("on the way", x.about(0, 14), 1);
         Due.deliverAll(x);
         Due.is("FIN_WAIT_2", x.about(0, 0), 6);
+    }
+
+    private static void closedBeforeTheSyn() {
+        StreamPair x = new StreamPair();
+        x.open(1000, 5000);
+        Due.is("close of who waits", x.close(1), 0);
+        x.deliver(0);
+        Due.segment("the SYN is refused", x, 0, 0, 20, Due.RST | Due.ACK, 0, 1001, 0);
+        x.deliver(0);
+        Due.is("CLOSED", x.about(0, 0), 0);
+        Due.is("RESET", x.about(0, 1), 1);
+        Due.is("END 1 has no end", x.about(1, 1), 0);
+    }
+
+    private static void closeTwice() {
+        int[] states = {1, 2, 4, 7};
+        for (int state : states) {
+            int e = Due.endIn(state);
+            StreamPair x = Due.inState(state);
+            x.close(e);
+            Due.throwing("close again after state " + state, IllegalStateException.class, x, () -> x.close(e));
+            Due.throwing("write after close", IllegalStateException.class, x, () -> x.write(e));
+        }
+    }
+
+    /** An END that closed still takes what comes, until the other's FIN. */
+    private static void closedEndTakesData() {
+        int[] states = {5, 6};
+        for (int state : states) {
+            StreamPair x = Due.inState(state);
+            Due.comes(x, 0, Due.ACK, 5001, state == 6 ? 1002 : 1001, 65535, 7);
+            Due.is("unread in state " + state, x.about(0, 2), 7);
+            Due.is("read", x.read(0, 7) >>> 56, 7);
+            Due.comes(x, 0, Due.ACK | Due.FIN, 5008, state == 6 ? 1002 : 1001, 65535, 0);
+            Due.throwing("read", IllegalStateException.class, x, () -> x.read(0, 7));
+        }
     }
 }

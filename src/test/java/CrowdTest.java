@@ -11,7 +11,11 @@ public final class CrowdTest {
         finGoesAgain();
         lessThanASegmentGoesAgain();
         avoidance();
-        growthHasLimits();
+        threshAtItsLeast();
+        growthAtThresh();
+        growthBySegmentAtMost();
+        whatGoesAgain();
+        afterThree();
         Due.finish();
     }
 
@@ -42,15 +46,16 @@ public final class CrowdTest {
         long variation = 0;
         int atMost = 0;
         Due.is("RTO", x.about(0, 6), 200);
-        for (int i = 0; i < 60; i++) {
-            int wait = x.about(0, 6) - 1;
+        long rto = 200;
+        for (int i = 0; i < 40; i++) {
+            int wait = (int) rto - 1;
             Due.write(x, 0, 1);
             x.tick(wait);
             x.deliver(0);
             x.deliver(0);
             variation = (3 * variation + Math.abs(srtt - wait)) / 4;
             srtt = (7 * srtt + wait) / 8;
-            long rto = Math.max(200, Math.min(60000, srtt + 4 * variation));
+            rto = Math.max(200, Math.min(60000, srtt + 4 * variation));
             Due.is("SRTT", x.about(0, 13), srtt);
             Due.is("RTO", x.about(0, 6), rto);
             atMost += rto == 60000 ? 1 : 0;
@@ -230,7 +235,7 @@ public final class CrowdTest {
         Due.deliverAll(x);
         int cwnd = 160;
         Due.is("CWND", x.about(0, 4), cwnd);
-        for (int i = 0; i < 100; i++) {
+        for (int i = 0; i < 30; i++) {
             Due.write(x, 0, 10);
             Due.deliverAll(x);
             cwnd += Math.max(1, 64 * 64 / cwnd);
@@ -238,51 +243,137 @@ public final class CrowdTest {
         }
     }
 
-    /** More than 512 calls, since no fewer let CWND grow as far. */
-    private static void growthHasLimits() {
-        StreamPair x = Due.joined(0, 0);
-        int cwnd = 5840;
-        int smallest = 2000;
-        for (int i = 0; i < 400000 && cwnd < 1000000; i++) {
-            x.feed(1, 2, 3, 4, 5);
-            x.write(0);
-            x.deliver(0);
-            x.deliver(0);
-            int more = cwnd < 65535 ? 20 : Math.max(1, 1460 * 1460 / cwnd);
-            smallest = Math.min(smallest, more);
-            cwnd = Math.min(1000000, cwnd + more);
-            if (x.about(0, 4) != cwnd) {
-                Due.is("CWND", x.about(0, 4), cwnd);
-                return;
-            }
-            while (x.about(1, 2) > 0) {
-                x.read(1, 7);
-            }
-        }
-        Due.is("CWND", x.about(0, 4), 1000000);
-        Due.is("smallest growth", smallest, 2);
-        Due.write(x, 0, 1);
-        Due.deliverAll(x);
-        Due.is("CWND at most", x.about(0, 4), 1000000);
-        leastGrowth();
-    }
-
-    private static void leastGrowth() {
+    private static StreamPair withSegment64() {
         StreamPair x = new StreamPair();
         x.set(0, 1, 64);
-        Due.join(x, 0, 0);
-        for (int i = 0; i < 1100; i++) {
-            Due.write(x, 0, 64);
-            x.deliver(0);
-            x.deliver(0);
-            while (x.about(1, 2) > 0) {
-                x.read(1, 7);
+        Due.join(x, 1000, 5000);
+        return x;
+    }
+
+    /** THRESH becomes half of what is on the way, cut off, but 128 at least, by the timer or by three the same. */
+    private static void threshAtItsLeast() {
+        int[][] cases = {{1, 128}, {64, 128}, {255, 128}, {256, 128}, {257, 128}, {258, 129}, {259, 129}, {301, 150},
+            {319, 159}, {320, 160}};
+        for (int[] one : cases) {
+            for (int way = 0; way < 2; way++) {
+                StreamPair x = withSegment64();
+                Due.write(x, 0, 64);
+                Due.deliverAll(x);
+                Due.is("CWND", x.about(0, 4), 320);
+                Due.write(x, 0, one[0]);
+                Due.is("on the way", x.about(0, 14), one[0]);
+                if (way == 0) {
+                    x.tick(200);
+                } else {
+                    threeSame(x, 1065, 65471);
+                }
+                Due.is("THRESH with " + one[0] + " on the way", x.about(0, 5), one[1]);
+                Due.is("CWND", x.about(0, 4), way == 0 ? 64 : one[1]);
             }
         }
-        int cwnd = x.about(0, 4);
-        Due.is("CWND is above THRESH and SEGMENT squared", cwnd > 65535 ? 1 : 0, 1);
-        Due.write(x, 0, 1);
-        Due.deliverAll(x);
-        Due.is("by 1 at least", x.about(0, 4), cwnd + 1);
+    }
+
+    private static void threeSame(StreamPair x, int ack, int window) {
+        Due.is("SAME", x.about(0, 12), 0);
+        for (int i = 0; i < 3; i++) {
+            Due.comes(x, 0, Due.ACK, 5001, ack, window, 0);
+        }
+        Due.is("SAME", x.about(0, 12), 3);
+    }
+
+    /** CWND 64 and THRESH 128: below THRESH by what was acknowledged, at it by SEGMENT * SEGMENT / CWND. */
+    private static void growthAtThresh() {
+        int[][] cases = {{63, 127, 137}, {64, 128, 160}, {62, 126, 136}, {200, 128, 160}};
+        for (int[] one : cases) {
+            StreamPair x = withSegment64();
+            Due.write(x, 0, 256);
+            x.tick(200);
+            Due.is("CWND", x.about(0, 4), 64);
+            Due.is("THRESH", x.about(0, 5), 128);
+            Due.comes(x, 0, Due.ACK, 5001, 1001 + one[0], 65535, 0);
+            Due.is("CWND after " + one[0], x.about(0, 4), one[1]);
+            Due.comes(x, 0, Due.ACK, 5001, 1011 + one[0], 65535, 0);
+            Due.is("CWND after 10 more", x.about(0, 4), one[2]);
+        }
+    }
+
+    private static void growthBySegmentAtMost() {
+        int[][] cases = {{1, 257}, {63, 319}, {64, 320}, {65, 320}, {256, 320}};
+        for (int[] one : cases) {
+            StreamPair x = withSegment64();
+            Due.write(x, 0, 256);
+            Due.comes(x, 0, Due.ACK, 5001, 1001 + one[0], 65535, 0);
+            Due.is("CWND after " + one[0], x.about(0, 4), one[1]);
+        }
+    }
+
+    private static void goesAgain(String what, StreamPair x, int ack, int length, int flags) {
+        Due.dropAll(x);
+        int nxt = x.about(0, 14);
+        for (int i = 0; i < 2; i++) {
+            Due.comes(x, 0, Due.ACK, 5001, ack, x.about(0, 8), 0);
+        }
+        Due.is(what + ": not by two", x.count(1), 0);
+        Due.comes(x, 0, Due.ACK, 5001, ack, x.about(0, 8), 0);
+        Due.is(what + ": one segment", x.count(1), 1);
+        Due.is(what + ": its data", x.seen(0, -1) - 20, length);
+        Due.is(what + ": its flags", Due.flags(x, 0), flags);
+        Due.is(what + ": its SEQ", Due.seq(x, 0), ack);
+        Due.is(what + ": NXT stays", x.about(0, 14), nxt);
+    }
+
+    private static void whatGoesAgain() {
+        int[] lengths = {1, 63, 64};
+        for (int n : lengths) {
+            StreamPair x = withSegment64();
+            Due.write(x, 0, n);
+            goesAgain("all that was sent", x, 1001, n, Due.ACK | Due.PSH);
+        }
+        StreamPair x = withSegment64();
+        Due.write(x, 0, 65);
+        goesAgain("SEGMENT of it", x, 1001, 64, Due.ACK);
+        StreamPair y = withRoomOf(60);
+        Due.write(y, 0, 100);
+        Due.is("on the way", y.about(0, 14), 60);
+        goesAgain("not what was not sent yet", y, 1001, 60, Due.ACK);
+        StreamPair z = withRoomOf(65535);
+        Due.write(z, 0, 60);
+        Due.write(z, 0, 40);
+        Due.comes(z, 0, Due.ACK, 5001, 1001, 60, 0);
+        z.tick(200);
+        Due.is("on the way", z.about(0, 14), 60);
+        goesAgain("to MAX, not to NXT", z, 1001, 100, Due.ACK | Due.PSH);
+        StreamPair f = withSegment64();
+        Due.write(f, 0, 1);
+        f.close(0);
+        goesAgain("data before the FIN", f, 1001, 1, Due.ACK | Due.PSH);
+        Due.comes(f, 0, Due.ACK, 5001, 1002, 65535, 0);
+        goesAgain("the FIN alone", f, 1002, 0, Due.ACK | Due.FIN);
+    }
+
+    private static StreamPair withRoomOf(int room) {
+        StreamPair x = new StreamPair();
+        x.set(1, 0, room);
+        Due.join(x, 1000, 5000);
+        return x;
+    }
+
+    /** Once alone: the fourth and later ones only count. */
+    private static void afterThree() {
+        StreamPair x = withSegment64();
+        Due.write(x, 0, 256);
+        Due.dropAll(x);
+        threeSame(x, 1001, 65535);
+        for (int i = 4; i <= 8; i++) {
+            Due.comes(x, 0, Due.ACK, 5001, 1001, 65535, 0);
+            Due.is("SAME", x.about(0, 12), i);
+            Due.is("on their way", x.count(1), 1);
+            Due.is("CWND", x.about(0, 4), 128);
+        }
+        Due.comes(x, 0, Due.ACK, 5001, 1002, 65535, 0);
+        Due.is("SAME", x.about(0, 12), 0);
+        Due.dropAll(x);
+        threeSame(x, 1002, 65535);
+        Due.is("three more", x.count(1), 1);
     }
 }

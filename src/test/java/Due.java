@@ -8,7 +8,11 @@ final class Due {
     static final int PSH = 8;
     static final int ACK = 16;
 
+    static final int[] NO_ENDS = {-1, 2, Integer.MAX_VALUE, Integer.MIN_VALUE};
+
     private static final int CALLS_OF_ABOUT = 17;
+    /* Of a longer segment only so many bytes are looked at: an object is good for 512 calls. */
+    private static final int BYTES_LOOKED_AT = 24;
     private static int wrong;
     private static int checked;
 
@@ -17,6 +21,14 @@ final class Due {
 
     interface Call {
         void run();
+    }
+
+    interface Make {
+        StreamPair pair();
+    }
+
+    interface Use {
+        void of(StreamPair x);
     }
 
     static void is(String what, long got, long want) {
@@ -48,6 +60,12 @@ final class Due {
         same("what there is after " + what + " threw", everything(x), before);
     }
 
+    /** The same on an object made for this call alone. */
+    static void refused(String what, Class<? extends RuntimeException> kind, Make make, Use call) {
+        StreamPair x = make.pair();
+        throwing(what, kind, x, () -> call.of(x));
+    }
+
     static void finish() {
         System.out.println(wrong == 0 ? checked + " answers are as due" : wrong + " answers are not as due");
         if (wrong != 0) {
@@ -65,7 +83,9 @@ final class Due {
             text.append(x.count(what)).append(' ');
         }
         for (int k = 0; k < x.count(1); k++) {
-            text.append('|').append(x.seen(k, -2)).append(':').append(hex(bytes(x, k)));
+            int length = x.seen(k, -1);
+            text.append('|').append(x.seen(k, -2)).append(':').append(length).append(':');
+            text.append(hex(bytes(x, k, 0, Math.min(length, BYTES_LOOKED_AT))));
         }
         return text.toString();
     }
@@ -79,9 +99,13 @@ final class Due {
     }
 
     static byte[] bytes(StreamPair x, int k) {
-        byte[] row = new byte[x.seen(k, -1)];
-        for (int at = 0; at < row.length; at++) {
-            row[at] = (byte) x.seen(k, at);
+        return bytes(x, k, 0, x.seen(k, -1));
+    }
+
+    static byte[] bytes(StreamPair x, int k, int from, int n) {
+        byte[] row = new byte[n];
+        for (int i = 0; i < n; i++) {
+            row[i] = (byte) x.seen(k, from + i);
         }
         return row;
     }
@@ -130,8 +154,13 @@ final class Due {
         is(what + ": SEQ", seq(x, k), seq);
         is(what + ": ACK number", ack(x, k), ack);
         is(what + ": window", window(x, k), window);
-        is(what + ": sum", sum(bytes(x, k)), 0xFFFF);
         is(what + ": urgent pointer", number(x, k, 18, 2), 0);
+        if (length <= 2 * BYTES_LOOKED_AT) {
+            is(what + ": sum", sum(bytes(x, k)), 0xFFFF);
+        } else {
+            int checksum = number(x, k, 16, 2);
+            is(what + ": checksum when mended", x.flip(k, 0, 0, true), checksum);
+        }
     }
 
     /** The sum over the pseudo header and the segment, word by word as RFC 9293 tells it. */

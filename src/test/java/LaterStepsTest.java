@@ -14,6 +14,9 @@ public final class LaterStepsTest {
         step13OtherStates();
         step14Lingers();
         step15Answers();
+        step10Edges();
+        step12Edges();
+        step13FullWindow();
         Due.finish();
     }
 
@@ -180,24 +183,6 @@ public final class LaterStepsTest {
         Due.is("a FIN that lies at EDGE is taken", y.about(1, 0), 7);
         Due.segment("its ACK", y, 0, 0, 20, Due.ACK, 5001, 1012, 0);
         Due.is("window", y.about(1, 9), 0);
-        greatestWindow();
-    }
-
-    /** 65,535 bytes, of which the first come last. */
-    private static void greatestWindow() {
-        StreamPair x = Due.joined(-5, 0);
-        byte[] none = new byte[0];
-        for (int from = 1000; from < 65535; from += 1460) {
-            Due.comes(x, 1, Due.forged(1, Due.ACK, -4 + from, 1, 9, none, Due.pattern(from, 1460)));
-        }
-        Due.is("kept", x.about(1, 15), 64535);
-        Due.dropAll(x);
-        Due.comes(x, 1, Due.forged(1, Due.ACK, -4, 1, 9, none, Due.pattern(0, 1000)));
-        Due.is("unread", x.about(1, 2), 65535);
-        Due.segment("ACK", x, 0, 0, 20, Due.ACK, 1, 65531, 0);
-        for (int i = 0; i < 65535; i++) {
-            Due.is("byte " + i, x.read(1, 1), 1L << 56 | Due.patternAt(i));
-        }
     }
 
     private static void step13Fin() {
@@ -269,5 +254,81 @@ public final class LaterStepsTest {
         Due.comes(x, 0, Due.ACK, 5004, 2461, 65535, 3);
         Due.segment("data tells RCV too", x, 1, 1, 22, Due.ACK | Due.PSH, 6841, 5007, 65529);
         Due.is("no other ACK", x.count(1), 2);
+    }
+
+    /** UNA 1001, MAX 1011: one below, at and one beyond each. */
+    private static void step10Edges() {
+        int[][] cases = {{1000, 10, 0}, {1001, 10, 0}, {1002, 9, 0}, {1010, 1, 0}, {1011, 0, 0}, {1012, 10, 1}};
+        for (int[] one : cases) {
+            StreamPair x = Due.joined(1000, 5000);
+            Due.write(x, 0, 10);
+            Due.dropAll(x);
+            Due.comes(x, 0, Due.ACK, 5001, one[0], 65535, 0);
+            Due.is("not acknowledged by " + one[0], x.about(0, 3), one[1]);
+            Due.is("answers to " + one[0], x.count(1), one[2]);
+            Due.is("SAME", x.about(0, 12), one[0] == 1001 ? 1 : 0);
+            StreamPair y = Due.joined(1000, 5000);
+            Due.write(y, 0, 9);
+            y.close(0);
+            Due.dropAll(y);
+            Due.comes(y, 0, Due.ACK, 5001, one[0], 65535, 0);
+            int left = one[1] == 10 ? 9 : Math.max(one[1] - 1, 0);
+            Due.is("bytes not acknowledged with a FIN at 1010", y.about(0, 3), left);
+            Due.is("answers to " + one[0], y.count(1), one[2]);
+            Due.is("FIN_WAIT_2 only by 1011", y.about(0, 0), one[0] == 1011 ? 6 : 5);
+        }
+        StreamPair z = Due.joined(1000, 5000);
+        Due.comes(z, 0, Due.ACK, 5001, 1002, 65535, 0);
+        Due.is("beyond MAX when nothing was sent", z.count(1), 1);
+    }
+
+    /** In states 5, 8 and 9 the FIN is acknowledged or not; in 4 and 7 there is none. */
+    private static void step12Edges() {
+        int[] then = {-1, -1, -1, -1, 4, 6, 6, 7, 10, 0, 10};
+        for (int state = 4; state <= 10; state++) {
+            int rcv = state <= 6 ? 5001 : 5002;
+            StreamPair x = Due.inState(state);
+            Due.comes(x, 0, Due.ACK, rcv, 1001, 65535, 0);
+            Due.is("without it in state " + state, x.about(0, 0), state);
+            StreamPair y = Due.inState(state);
+            Due.comes(y, 0, Due.ACK, rcv, 1002, 65535, 0);
+            Due.is("with it in state " + state, y.about(0, 0), then[state]);
+        }
+    }
+
+    /** A full window of 65,535: the last byte is taken, one more is not, and a FIN at EDGE alone does not fit. */
+    private static void step13FullWindow() {
+        StreamPair x = filled();
+        Due.is("unread", x.about(1, 2), 65535);
+        Due.is("window", x.about(1, 9), 0);
+        Due.dropAll(x);
+        Due.comes(x, 1, Due.ACK, 1001 + 65535, 5001, 65535, 1);
+        Due.is("a byte more", x.about(1, 2) + x.about(1, 15), 65535);
+        Due.segment("is answered", x, 0, 0, 20, Due.ACK, 5001, 1001 + 65535, 0);
+        Due.comes(x, 1, Due.ACK | Due.FIN, 1001 + 65535, 5001, 65535, 0);
+        Due.is("a FIN", x.about(1, 0), 4);
+        Due.is("read", x.read(1, 1), 1L << 56 | Due.patternAt(0));
+        Due.is("a byte read is not told", x.count(1), 2);
+        Due.comes(x, 1, Due.ACK | Due.FIN, 1001 + 65535, 5001, 65535, 0);
+        Due.is("and does not fit, as EDGE is told by SENDING alone", x.about(1, 0), 4);
+        Due.segment("which is this answer", x, 2, 0, 20, Due.ACK, 5001, 1001 + 65535, 1);
+        Due.comes(x, 1, Due.ACK | Due.FIN, 1001 + 65535, 5001, 65535, 0);
+        Due.is("now it fits", x.about(1, 0), 7);
+    }
+
+    /** 45 segments of which 44 are copies whose SEQ is altered, since calls are few. */
+    private static StreamPair filled() {
+        StreamPair x = Due.joined(1000, 5000);
+        Due.write(x, 0, 1460);
+        for (int i = 0; i < 45; i++) {
+            int seq = 1001 + 1460 * i;
+            x.copy(0);
+            x.flip(1, 5, seq >> 16 & 255, false);
+            x.flip(1, 6, (seq >> 8 ^ 1001 >> 8) & 255, false);
+            x.flip(1, 7, (seq ^ 1001) & 255, true);
+            x.deliver(1);
+            x.drop(1);
+        }
+        return x;
     }
 }

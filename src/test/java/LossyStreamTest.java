@@ -3,25 +3,30 @@
  * at a time: when both ends resend at once, what the document tells can let them refuse each other's ACKs.
  */
 public final class LossyStreamTest {
-    private static final int BYTES = 5000;
+    private static final int CALLS = 512;
 
     private final StreamPair x = new StreamPair();
+    private final int bytes;
     private final int writer;
     private final int reader;
     private int written;
     private int read;
+    private int calls;
     private long chance;
 
-    private LossyStreamTest(int seed) {
+    private LossyStreamTest(int seed, int bytes) {
         chance = seed;
+        this.bytes = bytes;
         writer = seed % 2;
         reader = 1 - writer;
     }
 
     public static void main(String[] args) {
-        for (int seed = 1; seed <= 300; seed++) {
-            new LossyStreamTest(seed).run(seed);
+        int ended = 0;
+        for (int seed = 1; seed <= 1000; seed++) {
+            ended += new LossyStreamTest(seed, 200 + seed % 7 * 30).run(seed) ? 1 : 0;
         }
+        Due.is("of 1000 streams more than 900 came to their end", ended > 900 ? 1 : 0, 1);
         Due.finish();
     }
 
@@ -30,30 +35,43 @@ public final class LossyStreamTest {
         return (int) ((chance >>> 33) % n);
     }
 
-    private void run(int seed) {
-        x.set(0, 1, 64 + below(1397));
-        x.set(1, 1, 64 + below(1397));
-        x.set(below(2), 0, 300 + below(3000));
+    /** Whether the stream came to its end within its calls. */
+    private boolean run(int seed) {
+        x.set(0, 1, 64 + below(100));
+        x.set(1, 1, 64 + below(100));
+        x.set(below(2), 0, 100 + below(300));
         x.open((int) chance, -2 + below(4));
-        for (int i = 0; i < 200000 && !isDone(); i++) {
+        calls = 4;
+        while (calls < CALLS - 60 && !isDone()) {
             step();
         }
-        Due.is("seed " + seed + ": bytes read", read, BYTES);
-        Due.is("seed " + seed + ": the writer is at its end", x.about(writer, 0) % 10, 0);
         Due.is("seed " + seed + ": the writer was not broken off", x.about(writer, 1), 0);
-        Due.throwing("read behind the end", IllegalStateException.class, x, () -> x.read(reader, 1));
+        if (!isDone()) {
+            return false;
+        }
+        Due.is("seed " + seed + ": bytes read", read, bytes);
+        String answer = "none";
+        try {
+            x.read(reader, 1);
+        } catch (IllegalStateException e) {
+            answer = "IllegalStateException";
+        }
+        Due.same("read behind the end", answer, "IllegalStateException");
+        return true;
     }
 
     private boolean isDone() {
-        return read == BYTES && x.about(0, 0) % 10 == 0 && x.about(1, 0) % 10 == 0;
+        calls += 2;
+        return read == bytes && x.about(0, 0) % 10 == 0 && x.about(1, 0) % 10 == 0;
     }
 
     private void step() {
         writeSome();
         readSome();
         int n = x.count(1);
+        calls += 2;
         if (n == 0) {
-            x.tick(1 + below(200));
+            x.tick(1 + below(300));
             return;
         }
         int k = below(4) == 0 ? below(n) : 0;
@@ -63,6 +81,7 @@ public final class LossyStreamTest {
         } else if (what == 1 && n < 40) {
             x.copy(k);
         } else if (what == 2) {
+            calls += 2;
             x.flip(k, below(x.seen(k, -1)), 1 << below(8), false);
             /* At once, since a second bit altered can make the checksum right again. */
             x.deliver(k);
@@ -72,31 +91,37 @@ public final class LossyStreamTest {
     }
 
     private void writeSome() {
-        if (x.about(writer, 0) != 4 || below(5) != 0) {
+        calls++;
+        if (x.about(writer, 0) != 4 || below(2) != 0) {
             return;
         }
-        if (written == BYTES) {
+        calls++;
+        if (written == bytes) {
             x.close(writer);
             return;
         }
-        int n = Math.min(below(900), BYTES - written);
+        int n = Math.min(below(300), bytes - written);
         Due.lay(x, Due.pattern(written, n));
         x.write(writer);
         written += n;
+        calls += 5 + n / 20;
     }
 
     private void readSome() {
-        if (below(3) != 0) {
-            return;
-        }
-        if (read < BYTES) {
+        int n = 7;
+        while (n == 7 && read < bytes) {
             long answer = x.read(reader, 7);
-            for (int i = (int) (answer >>> 56) - 1; i >= 0; i--) {
+            calls++;
+            n = (int) (answer >>> 56);
+            for (int i = n - 1; i >= 0; i--) {
                 Due.is("byte " + read, answer >>> 8 * i & 255, Due.patternAt(read));
                 read++;
             }
-        } else if (x.about(reader, 0) == 7) {
+        }
+        calls++;
+        if (read == bytes && x.about(reader, 0) == 7) {
             x.close(reader);
+            calls += 2;
         }
     }
 }

@@ -1,6 +1,6 @@
 import java.util.NoSuchElementException;
 
-/** Promises 11 to 16: deliver, drop, copy, flip, inject, seen. */
+/** Promises 11 to 16: deliver, drop, copy, flip, inject, seen. That there is room for 512 is in FullNetworkTest. */
 public final class NetworkTest {
     private static final int[] NO_SEGMENTS = {-1, 3, Integer.MAX_VALUE, Integer.MIN_VALUE};
 
@@ -10,12 +10,14 @@ public final class NetworkTest {
         drops();
         copies();
         flips();
+        flipsAtTheEnds();
         flipsOfShortSegments();
         mendsOddLengths();
+        injectsRefused();
+        injectsTheLongest();
         injects();
+        longestComes();
         sees();
-        fullNetwork();
-        fullNetworkTakesAnswers();
         nothingOldShows();
         Due.finish();
     }
@@ -30,15 +32,22 @@ public final class NetworkTest {
     }
 
     private static void wrongSegments() {
-        StreamPair x = withThree();
-        for (int k : NO_SEGMENTS) {
-            Due.throwing("deliver", NoSuchElementException.class, x, () -> x.deliver(k));
-            Due.throwing("drop", NoSuchElementException.class, x, () -> x.drop(k));
-            Due.throwing("copy", NoSuchElementException.class, x, () -> x.copy(k));
-            Due.throwing("flip", NoSuchElementException.class, x, () -> x.flip(k, 0, 1, true));
-            Due.throwing("flip of no place", NoSuchElementException.class, x, () -> x.flip(k, -1, 1, true));
-            Due.throwing("seen", NoSuchElementException.class, x, () -> x.seen(k, 0));
-            Due.throwing("seen of no place", NoSuchElementException.class, x, () -> x.seen(k, -3));
+        wrongSegmentsOf(NetworkTest::withThree, NO_SEGMENTS);
+        int[] noneOfNone = {0, -1, 1, Integer.MAX_VALUE, Integer.MIN_VALUE};
+        wrongSegmentsOf(StreamPair::new, noneOfNone);
+    }
+
+    private static void wrongSegmentsOf(Due.Make make, int[] wrong) {
+        for (int k : wrong) {
+            Due.refused("deliver", NoSuchElementException.class, make, x -> x.deliver(k));
+            Due.refused("drop", NoSuchElementException.class, make, x -> x.drop(k));
+            Due.refused("copy", NoSuchElementException.class, make, x -> x.copy(k));
+            Due.refused("flip", NoSuchElementException.class, make, x -> x.flip(k, 0, 1, true));
+            Due.refused("flip of no place", NoSuchElementException.class, make, x -> x.flip(k, -1, 1, true));
+            Due.refused("seen", NoSuchElementException.class, make, x -> x.seen(k, 0));
+            Due.refused("seen of a length", NoSuchElementException.class, make, x -> x.seen(k, -1));
+            Due.refused("seen of an end", NoSuchElementException.class, make, x -> x.seen(k, -2));
+            Due.refused("seen of no place", NoSuchElementException.class, make, x -> x.seen(k, -3));
         }
     }
 
@@ -98,12 +107,34 @@ public final class NetworkTest {
         Due.is("and of its low byte", x.flip(2, 17, 1, false), checksum ^ 0x8001);
         x.flip(2, 21, 255, false);
         Due.is("mended whatever it was", x.flip(2, 16, 0x11, true), checksum);
-        int length = x.seen(2, -1);
-        Due.is("the last place", x.flip(2, length - 1, 0, false), checksum);
-        int[] noPlaces = {-1, -2, length, Integer.MAX_VALUE, Integer.MIN_VALUE};
+    }
+
+    private static void flipsAtTheEnds() {
+        StreamPair x = withThree();
+        int checksum = Due.number(x, 2, 16, 2);
+        Due.is("the first place", x.flip(2, 0, 0, false), checksum);
+        Due.is("the last place", x.flip(2, 22, 0, false), checksum);
+        x.flip(2, 0, 0x80, false);
+        x.flip(2, 22, 1, false);
+        Due.is("the first byte", x.seen(2, 0), 0x9C ^ 0x80);
+        Due.is("the last byte", x.seen(2, 22), Due.patternAt(2) ^ 1);
+        int[] noPlaces = {-1, -2, 23, Integer.MAX_VALUE, Integer.MIN_VALUE};
         for (int at : noPlaces) {
-            Due.throwing("flip at " + at, IndexOutOfBoundsException.class, x, () -> x.flip(2, at, 1, true));
+            Due.refused("flip at " + at, IndexOutOfBoundsException.class, NetworkTest::withThree,
+                    y -> y.flip(2, at, 1, true));
+            Due.refused("flip at " + at, IndexOutOfBoundsException.class, NetworkTest::withThree,
+                    y -> y.flip(2, at, 1, false));
         }
+        Due.refused("flip of nothing", IndexOutOfBoundsException.class, NetworkTest::withEmpty,
+                y -> y.flip(0, 0, 1, true));
+        Due.refused("seen of nothing", IndexOutOfBoundsException.class, NetworkTest::withEmpty, y -> y.seen(0, 0));
+        Due.is("length of nothing", withEmpty().seen(0, -1), 0);
+    }
+
+    private static StreamPair withEmpty() {
+        StreamPair x = new StreamPair();
+        x.inject(1);
+        return x;
     }
 
     private static void flipsOfShortSegments() {
@@ -139,29 +170,67 @@ public final class NetworkTest {
         Due.is("read", x.read(1, 7), 3L << 56 | 0x0102FF);
     }
 
+    private static StreamPair withTape(int n) {
+        StreamPair x = Due.joined(1000, 5000);
+        Due.lay(x, Due.pattern(3, n));
+        return x;
+    }
+
+    private static void injectsRefused() {
+        int[] lengths = {0, 20, 1484, 1485};
+        for (int n : lengths) {
+            for (int e : Due.NO_ENDS) {
+                Due.refused("inject to no end", NoSuchElementException.class, () -> withTape(n), x -> x.inject(e));
+            }
+        }
+        int[] tooLong = {1485, 1486, 1504, 3000};
+        for (int n : tooLong) {
+            for (int end = 0; end < 2; end++) {
+                int e = end;
+                Due.refused("inject of too many", IllegalArgumentException.class, () -> withTape(n),
+                        x -> x.inject(e));
+            }
+        }
+    }
+
+    private static void injectsTheLongest() {
+        byte[] longest = Due.pattern(3, 1484);
+        for (int from = 0; from < 1484; from += 371) {
+            StreamPair x = withTape(1484);
+            Due.is("inject of 1484 bytes", x.inject(0), 1);
+            Due.is("the tape is taken", x.count(3), 0);
+            Due.is("its length", x.seen(0, -1), 1484);
+            Due.is("it goes to", x.seen(0, -2), 0);
+            byte[] part = java.util.Arrays.copyOfRange(longest, from, from + 371);
+            Due.same("its bytes", Due.hex(Due.bytes(x, 0, from, 371)), Due.hex(part));
+        }
+    }
+
     private static void injects() {
         StreamPair x = withThree();
-        int[] noEnds = {-1, 2, Integer.MAX_VALUE, Integer.MIN_VALUE};
-        Due.lay(x, Due.pattern(3, 1485));
-        for (int e : noEnds) {
-            Due.throwing("inject to no end", NoSuchElementException.class, x, () -> x.inject(e));
-        }
-        Due.throwing("inject of 1485 bytes", IllegalArgumentException.class, x, () -> x.inject(0));
-        Due.is("the tape stays", x.count(3), 1485);
-        x.end(1484);
-        Due.is("inject of 1484 bytes", x.inject(0), 4);
-        Due.is("the tape is taken", x.count(3), 0);
-        Due.is("its length", x.seen(3, -1), 1484);
-        Due.is("it goes to", x.seen(3, -2), 0);
-        Due.same("its bytes", Due.hex(Due.bytes(x, 3)), Due.hex(Due.pattern(3, 1484)));
-        Due.is("inject of nothing", x.inject(1), 5);
-        Due.is("its length", x.seen(4, -1), 0);
-        Due.is("it goes to", x.seen(4, -2), 1);
-        Due.is("deliver of nothing", x.deliver(4), 4);
+        Due.is("inject of nothing", x.inject(1), 4);
+        Due.is("its length", x.seen(3, -1), 0);
+        Due.is("it goes to", x.seen(3, -2), 1);
+        Due.is("deliver of nothing", x.deliver(3), 3);
         Due.is("dropped in step 1", x.about(1, 16), 1);
         Due.is("injected is not sent", x.about(1, 10), 1);
+        Due.is("injected is not sent", x.about(0, 10), 5);
         Due.comes(x, 1, Due.ACK, 1001, 5001, 65535, 5);
         Due.is("an invented segment counts as any other", x.about(1, 2), 5);
+        x.feed(1, 2, 3, 4, 5);
+        x.end(1);
+        Due.is("inject of a byte", x.inject(0), 5);
+        Due.is("it is the newest", x.seen(4, -1), 1);
+        Due.is("the others stay", x.seen(0, -1), 21);
+    }
+
+    /** A segment of 1484 bytes is as good as others. */
+    private static void longestComes() {
+        StreamPair x = Due.joined(1000, 5000);
+        Due.comes(x, 1, Due.ACK, 1001, 5001, 65535, 1464);
+        Due.is("unread", x.about(1, 2), 1464);
+        Due.is("not dropped in step 1", x.about(1, 16), 0);
+        Due.is("read", x.read(1, 2), 2L << 56 | Due.patternAt(0) << 8 | Due.patternAt(1));
     }
 
     private static void sees() {
@@ -173,36 +242,13 @@ public final class NetworkTest {
         Due.is("SEQ", x.seen(0, 7), 0x05);
         Due.is("window, above 127", x.seen(0, 14), 255);
         Due.is("last", x.seen(0, 21), Due.patternAt(1));
-        int[] noPlaces = {-3, 22, Integer.MAX_VALUE, Integer.MIN_VALUE};
-        for (int at : noPlaces) {
-            Due.throwing("seen at " + at, IndexOutOfBoundsException.class, x, () -> x.seen(0, at));
-        }
         String before = Due.everything(x);
         Due.same("seeing changes nothing", Due.everything(x), before);
-    }
-
-    private static void fullNetwork() {
-        StreamPair x = withThree();
-        for (int n = 4; n <= 512; n++) {
-            Due.is("copy", x.copy(0), n);
+        int[] noPlaces = {-3, 23, Integer.MAX_VALUE, Integer.MIN_VALUE};
+        for (int at : noPlaces) {
+            Due.refused("seen at " + at, IndexOutOfBoundsException.class, NetworkTest::withThree, y -> y.seen(2, at));
         }
-        Due.is("lost", x.count(4), 0);
-        Due.is("copy without room", x.copy(0), 512);
-        Due.is("lost", x.count(4), 1);
-        Due.is("write without room", Due.write(x, 0, 4), 4);
-        Due.is("lost", x.count(4), 2);
-        Due.is("sent", x.about(0, 10), 6);
-        Due.is("NXT follows", x.about(0, 14), 10);
-        x.feed(1, 2, 3, 4, 5);
-        Due.is("inject without room", x.inject(0), 512);
-        Due.is("the tape is taken", x.count(3), 0);
-        Due.is("lost", x.count(4), 3);
-        x.tick(200);
-        Due.is("the timer's is lost too", x.count(4), 4);
-        Due.is("the last is a copy", Due.seq(x, 511), 1001);
-        Due.is("drop", x.drop(0), 511);
-        Due.is("copy", x.copy(0), 512);
-        Due.is("lost", x.count(4), 4);
+        Due.is("seen at 22", withThree().seen(2, 22), Due.patternAt(2));
     }
 
     /** Rows of segments that are gone serve again: nothing of the old ones may show. */
@@ -218,16 +264,5 @@ public final class NetworkTest {
         Due.throwing("seen behind its end", IndexOutOfBoundsException.class, x, () -> x.seen(0, 23));
         x.deliver(0);
         Due.is("read", x.read(1, 7) >>> 56, 3);
-    }
-
-    /** What is delivered is not on its way any more, so there is room for one answer. */
-    private static void fullNetworkTakesAnswers() {
-        StreamPair x = withThree();
-        while (x.count(1) < 512) {
-            x.copy(0);
-        }
-        Due.is("deliver", x.deliver(0), 512);
-        Due.is("lost", x.count(4), 0);
-        Due.segment("the answer", x, 511, 0, 20, Due.ACK, 5001, 1002, 65534);
     }
 }

@@ -10,6 +10,10 @@ public final class ReadTest {
         windowOpensInOtherStates();
         readOfNoneTellsTheWindow();
         kept();
+        windowAtTheSegment();
+        windowAtASmallSegment();
+        fewerThanAsked();
+        noneInAnyState();
         Due.finish();
     }
 
@@ -30,19 +34,50 @@ public final class ReadTest {
     }
 
     private static void wrongInputs() {
-        StreamPair x = Due.inState(7);
-        x.abort(0);
-        Due.dropAll(x);
-        int[] noEnds = {-1, 2, Integer.MAX_VALUE, Integer.MIN_VALUE};
-        for (int e : noEnds) {
-            Due.throwing("read of no end", NoSuchElementException.class, x, () -> x.read(e, 1));
-            Due.throwing("read of nothing right", NoSuchElementException.class, x, () -> x.read(e, 0));
+        for (int e : Due.NO_ENDS) {
+            Due.refused("read of no end", NoSuchElementException.class, ReadTest::finAndReset, x -> x.read(e, 1));
+            Due.refused("read of nothing right", NoSuchElementException.class, ReadTest::finAndReset,
+                    x -> x.read(e, 0));
         }
         int[] wrong = {0, 8, -1, Integer.MAX_VALUE, Integer.MIN_VALUE};
         for (int n : wrong) {
-            Due.throwing("read of a wrong n", IllegalArgumentException.class, x, () -> x.read(0, n));
+            String what = "read of " + n;
+            Due.refused(what, IllegalArgumentException.class, StreamPair::new, x -> x.read(0, n));
+            Due.refused(what + " with bytes", IllegalArgumentException.class, ReadTest::withTen, x -> x.read(0, n));
+            Due.refused(what + " behind the FIN", IllegalArgumentException.class, () -> Due.inState(7),
+                    x -> x.read(0, n));
+            Due.refused(what + " of what is RESET", IllegalArgumentException.class, ReadTest::reset,
+                    x -> x.read(0, n));
         }
-        Due.throwing("read behind the FIN of what is RESET", IllegalStateException.class, x, () -> x.read(0, 1));
+        for (int n = 1; n <= 7; n++) {
+            int right = n;
+            Due.is("read of " + n, withTen().read(0, n) >>> 56, n);
+            Due.is("read of " + n + " where there are none", Due.joined(1, 2).read(0, n), 0);
+            Due.refused("read behind the FIN", IllegalStateException.class, () -> Due.inState(7),
+                    x -> x.read(0, right));
+            Due.refused("read of what is RESET", UnsupportedOperationException.class, ReadTest::reset,
+                    x -> x.read(0, right));
+        }
+        Due.refused("read behind the FIN of what is RESET", IllegalStateException.class, ReadTest::finAndReset,
+                x -> x.read(0, 1));
+    }
+
+    private static StreamPair withTen() {
+        StreamPair x = Due.joined(1000, 5000);
+        Due.comes(x, 0, Due.ACK, 5001, 1001, 100, 10);
+        return x;
+    }
+
+    private static StreamPair reset() {
+        StreamPair x = Due.joined(1000, 5000);
+        x.abort(0);
+        return x;
+    }
+
+    private static StreamPair finAndReset() {
+        StreamPair x = Due.inState(7);
+        x.abort(0);
+        return x;
     }
 
     private static void nothingToRead() {
@@ -65,6 +100,7 @@ public final class ReadTest {
         StreamPair z = new StreamPair();
         z.open(1, 2);
         z.tick(1000000);
+        Due.dropAll(z);
         Due.throwing("read of what is LOST", UnsupportedOperationException.class, z, () -> z.read(0, 1));
         Due.is("read of who waits", z.read(1, 1), 0);
         z.open(1, 2);
@@ -170,6 +206,80 @@ public final class ReadTest {
         Due.is("unread", x.about(1, 2), 192);
         for (int i = 0; i < 192; i++) {
             Due.is("byte " + i, x.read(1, 1), 1L << 56 | Due.patternAt(i));
+        }
+    }
+
+    /** EDGE - RCV below SEGMENT, and RCV + FREE - EDGE SEGMENT or more: each at its edge. */
+    private static void windowAtTheSegment() {
+        int[][] cases = {{1459, 2919, 1}, {1459, 2918, 0}, {1460, 2920, 0}, {1460, 65535, 0}, {0, 1460, 1},
+            {0, 1459, 0}, {1, 1461, 1}, {1, 1460, 0}, {1458, 65535, 1}};
+        for (int[] one : cases) {
+            for (int e = 0; e < 2; e++) {
+                StreamPair x = new StreamPair();
+                x.set(e, 0, one[0]);
+                Due.join(x, 1000, 5000);
+                x.set(e, 0, one[1]);
+                Due.is("set tells nothing", x.count(1), 0);
+                Due.is("read", x.read(e, 1), 0);
+                Due.is("from " + one[0] + " to " + one[1], x.count(1), one[2]);
+                Due.is("EDGE - RCV", x.about(e, 9), one[2] == 1 ? one[1] : one[0]);
+                x.read(e, 1);
+                Due.is("once alone", x.count(1), one[2]);
+            }
+        }
+    }
+
+    /** SEGMENT counts, not the MSS that is set. */
+    private static void windowAtASmallSegment() {
+        int[][] cases = {{63, 127, 1}, {63, 126, 0}, {64, 128, 0}};
+        for (int[] one : cases) {
+            StreamPair x = new StreamPair();
+            x.set(0, 1, 64);
+            x.set(1, 0, one[0]);
+            Due.join(x, 1000, 5000);
+            x.set(0, 1, 1460);
+            x.set(1, 0, one[1]);
+            x.read(1, 7);
+            Due.is("from " + one[0] + " to " + one[1], x.count(1), one[2]);
+        }
+    }
+
+    private static void fewerThanAsked() {
+        for (int there = 0; there <= 8; there++) {
+            for (int n = 1; n <= 7; n++) {
+                StreamPair x = Due.joined(1000, 5000);
+                Due.comes(x, 0, Due.ACK, 5001, 1001, 100, there);
+                int read = Math.min(there, n);
+                long due = 0;
+                for (int i = 0; i < read; i++) {
+                    due = due << 8 | Due.patternAt(i);
+                }
+                Due.is("read of " + n + " of " + there, x.read(0, n), (long) read << 56 | due);
+                Due.is("left", x.about(0, 2), there - read);
+            }
+        }
+    }
+
+    /** In states without a connection, too, 0 if there are none and nothing ended. */
+    private static void noneInAnyState() {
+        for (int state = 0; state <= 10; state++) {
+            StreamPair x = Due.inState(state);
+            int e = Due.endIn(state);
+            if (state >= 7) {
+                Due.throwing("read in state " + state, IllegalStateException.class, x, () -> x.read(e, 7));
+            } else {
+                Due.is("read in state " + state, x.read(e, 7), 0);
+            }
+            x.abort(e);
+            Due.dropAll(x);
+            if (state >= 7) {
+                Due.throwing("read when RESET from " + state, IllegalStateException.class, x, () -> x.read(e, 7));
+            } else if (state == 0) {
+                Due.is("read when CLOSED", x.read(e, 7), 0);
+            } else {
+                Due.throwing("read when RESET from " + state, UnsupportedOperationException.class, x,
+                        () -> x.read(e, 7));
+            }
         }
     }
 }

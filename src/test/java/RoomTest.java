@@ -76,7 +76,7 @@ public final class RoomTest {
     }
 
     private static void opens(StreamPair x) {
-        for (int i = 0; i < 102; i++) {
+        for (int i = 0; i < 73; i++) {
             join(x);
             x.feed(1, 2, 3, 4, 5);
             x.write(0);
@@ -89,13 +89,13 @@ public final class RoomTest {
         feed(x, 146);
         x.write(0);
         x.close(0);
-        for (int i = 0; i < 45; i++) {
+        for (int i = 0; i < 41; i++) {
             x.copy(0);
             x.flip(x.count(1) - 1, 6, 4 * i, true);
             x.deliver(x.count(1) - 1);
             x.read(1, 7);
         }
-        for (int i = 0; i < 100; i++) {
+        for (int i = 0; i < 40; i++) {
             x.deliver(0);
         }
     }

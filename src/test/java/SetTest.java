@@ -9,6 +9,8 @@ public final class SetTest {
         roomBeforeTheSyn();
         mssCountsFromTheNextSyn();
         lesserMssCounts();
+        endsOfTheRanges();
+        mssAfterTheSyn();
         Due.finish();
     }
 
@@ -29,19 +31,27 @@ public final class SetTest {
     }
 
     private static void wrongInputs() {
-        StreamPair x = Due.joined(1, 2);
-        int[] noEnds = {-1, 2, Integer.MAX_VALUE, Integer.MIN_VALUE};
-        for (int e : noEnds) {
-            Due.throwing("set of no end", NoSuchElementException.class, x, () -> x.set(e, 0, 5));
-            Due.throwing("set of nothing right", NoSuchElementException.class, x, () -> x.set(e, 7, -5));
+        for (int e : Due.NO_ENDS) {
+            Due.refused("set of no end", NoSuchElementException.class, StreamPair::new, x -> x.set(e, 0, 5));
+            Due.refused("set of nothing right", NoSuchElementException.class, StreamPair::new, x -> x.set(e, 7, -5));
+            Due.refused("set of a wrong value, too", NoSuchElementException.class, StreamPair::new,
+                    x -> x.set(e, 0, 65536));
         }
-        int[][] wrong = {{0, -1}, {0, 65536}, {1, 63}, {1, 1461}, {1, 0}, {2, 100}, {-1, 100}, {0, Integer.MIN_VALUE},
-            {1, Integer.MAX_VALUE}, {Integer.MAX_VALUE, 100}};
+        int[][] wrong = {{0, -1}, {0, 65536}, {0, Integer.MIN_VALUE}, {0, Integer.MAX_VALUE}, {1, 63}, {1, 1461},
+            {1, 0}, {1, -1}, {1, Integer.MIN_VALUE}, {1, Integer.MAX_VALUE}, {2, 100}, {-1, 100},
+            {Integer.MAX_VALUE, 100}, {Integer.MIN_VALUE, 100}};
         for (int[] pair : wrong) {
-            Due.throwing("set", IllegalArgumentException.class, x, () -> x.set(0, pair[0], pair[1]));
+            for (int end = 0; end < 2; end++) {
+                int e = end;
+                StreamPair x = Due.joined(1, 2);
+                String what = "set of what " + pair[0] + " to " + pair[1];
+                Due.throwing(what, IllegalArgumentException.class, x, () -> x.set(e, pair[0], pair[1]));
+                Due.is("ROOM stays", x.set(e, 0, 1), 65535);
+                Due.is("MSS stays", x.set(e, 1, 64), 1460);
+                Due.is("the other's ROOM stays", x.set(1 - e, 0, 1), 65535);
+                Due.is("the other's MSS stays", x.set(1 - e, 1, 64), 1460);
+            }
         }
-        Due.is("ROOM", x.set(0, 0, 1), 65535);
-        Due.is("MSS", x.set(0, 1, 64), 1460);
     }
 
     private static void roomShrinksAndGrows() {
@@ -105,5 +115,46 @@ public final class SetTest {
             Due.write(x, 0, 1500);
             Due.is("data of a segment", x.seen(0, -1), 20 + segment);
         }
+    }
+
+    private static void endsOfTheRanges() {
+        int[] rooms = {0, 1, 65534, 65535};
+        for (int room : rooms) {
+            StreamPair x = new StreamPair();
+            Due.is("set", x.set(1, 0, room), 65535);
+            Due.join(x, 1, 2);
+            Due.is("EDGE - RCV", x.about(1, 9), room);
+            Due.is("FAR", x.about(0, 8), room);
+            Due.is("EDGE - RCV of the other", x.about(0, 9), 65535);
+        }
+        int[] sizes = {64, 65, 1459, 1460};
+        for (int size : sizes) {
+            for (int e = 0; e < 2; e++) {
+                StreamPair x = new StreamPair();
+                Due.is("set", x.set(e, 1, size), 1460);
+                x.open(1, 2);
+                Due.is("MSS in the SYN", Due.number(x, 0, 20, 4), 0x02040000 | (e == 0 ? size : 1460));
+                x.deliver(0);
+                Due.is("MSS in the SYN and ACK", Due.number(x, 0, 20, 4), 0x02040000 | (e == 1 ? size : 1460));
+                x.deliver(0);
+                x.deliver(0);
+                Due.is("CWND of END 0", x.about(0, 4), 4 * size);
+                Due.is("CWND of END 1", x.about(1, 4), 4 * size + 1);
+            }
+        }
+    }
+
+    /** Of END 1, too: SEGMENT is known when the SYN came, and the SYN that is sent again tells what is set then. */
+    private static void mssAfterTheSyn() {
+        StreamPair x = Due.inState(3);
+        x.set(1, 1, 100);
+        Due.is("CWND stays", x.about(1, 4), 5840);
+        x.tick(1000);
+        Due.is("the SYN again tells it", Due.number(x, x.count(1) - 1, 20, 4), 0x02040064);
+        Due.comes(x, 1, Due.ACK, 1001, 5001, 65535, 0);
+        Due.is("CWND grew by 1 alone", x.about(1, 4), 5841);
+        Due.dropAll(x);
+        Due.write(x, 1, 300);
+        Due.is("SEGMENT stays", x.seen(0, -1), 320);
     }
 }

@@ -16,6 +16,11 @@ public final class StepsTest {
         step7Syn();
         step8NoAck();
         step9SynRcvd();
+        step5Lengths();
+        step6Edges();
+        longestHeader();
+        step2AfterAll();
+        windowsOfSyns();
         Due.finish();
     }
 
@@ -125,6 +130,13 @@ public final class StepsTest {
             {65, 2, 4, 0, 65},
             {100, 1, 1, 1, 2, 4, 0, 100, 0},
             {536, 0, 2, 4, 0, 100, 0, 0, 0},
+            {536, 0, 2, 2, 4, 0, 100, 0, 0},
+            {536, 0, 3, 1, 2, 4, 0, 100, 0},
+            {536, 1, 0, 2, 2, 4, 0, 100, 1},
+            {536, 2, 5, 0, 100, 1, 1, 1, 1},
+            {100, 2, 5, 0, 200, 9, 2, 4, 0, 100, 0, 0, 0},
+            {66, 2, 4, 0, 66}, {64, 2, 4, 0, 64}, {1459, 2, 4, 5, 179}, {1460, 2, 4, 5, 180},
+            {1460, 2, 4, 128, 0}, {256, 2, 4, 1, 0}, {255, 2, 4, 0, 255},
             {200, 2, 4, 0, 100, 2, 4, 0, 200},
             {100, 2, 4, 0, 100, 0, 4, 0, 200},
             {100, 8, 2, 1, 5, 2, 2, 4, 0, 100, 0, 0, 536},
@@ -398,5 +410,114 @@ public final class StepsTest {
         Due.is("no timer", x.about(1, 11), -1);
         Due.is("CWND", x.about(1, 4), 5841);
         Due.segment("its ACK", x, 0, 0, 20, Due.ACK, 5001, 1006, 65531);
+    }
+
+    /** Of length 0 is what has no data, no SYN and no FIN; RST does not count. */
+    private static void step5Lengths() {
+        int[][] cases = {
+            {Due.RST, 0, 1}, {Due.RST, 1, 0}, {Due.RST | Due.FIN, 0, 0}, {Due.RST | Due.SYN, 0, 0},
+            {Due.RST | Due.ACK | Due.PSH, 0, 1},
+        };
+        for (int[] one : cases) {
+            StreamPair x = new StreamPair();
+            x.set(1, 0, 0);
+            Due.join(x, 1000, 5000);
+            Due.comes(x, 1, one[0], 1001, 5001, 9, one[1]);
+            Due.is("RST at RCV of a closed window", x.about(1, 1), one[2]);
+            Due.is("no answer", x.count(1), 0);
+        }
+        int[][] atTheEdges = {
+            {Due.ACK | Due.FIN, 1100, 0, 1}, {Due.ACK | Due.FIN, 1101, 0, 0}, {Due.ACK | Due.FIN, 1000, 0, 0},
+            {Due.ACK | Due.FIN, 1000, 1, 1}, {Due.ACK | Due.FIN, 1001, 99, 1}, {Due.ACK | Due.FIN, 1000, 100, 1},
+            {Due.ACK | Due.FIN, 1000, 101, 0}, {Due.ACK, 1000, 101, 1}, {Due.ACK, 1000, 102, 0},
+            {Due.ACK | Due.FIN, 999, 1, 0}, {Due.ACK | Due.FIN, 999, 2, 1},
+        };
+        for (int[] one : atTheEdges) {
+            StreamPair x = withSmallRoom();
+            Due.write(x, 1, 10);
+            Due.dropAll(x);
+            Due.comes(x, 1, one[0], one[1], 5006, 9, one[2]);
+            String what = "flags " + one[0] + " SEQ " + one[1] + " data " + one[2];
+            Due.is(what + " fits", x.about(1, 3), one[3] == 1 ? 5 : 10);
+            Due.is(what + " is answered", x.count(1), 1);
+        }
+    }
+
+    /** What lies in the window but not at RCV resets nothing. */
+    private static void step6Edges() {
+        int[][] cases = {{1000, 0, 4, 0}, {1001, 0, 0, 0}, {1002, 0, 4, 1}, {1100, 0, 4, 1}, {1101, 0, 4, 0},
+            {1000, 2, 4, 1}, {1001, 2, 0, 0}, {999, 2, 4, 0}};
+        for (int[] one : cases) {
+            StreamPair x = withSmallRoom();
+            Due.comes(x, 1, Due.RST | Due.ACK, one[0], 5001, 9, one[1]);
+            String what = "RST at " + one[0] + " with " + one[1];
+            Due.is(what + ": state", x.about(1, 0), one[2]);
+            Due.is(what + ": end", x.about(1, 1), one[2] == 0 ? 1 : 0);
+            Due.is(what + ": answers", x.count(1), one[3]);
+            Due.is("FAR", x.about(1, 8), 65535);
+        }
+    }
+
+    /** A header of 60 bytes is the longest there is. */
+    private static void longestHeader() {
+        byte[] options = new byte[40];
+        java.util.Arrays.fill(options, (byte) 1);
+        options[36] = 2;
+        options[37] = 4;
+        options[38] = 0;
+        options[39] = 100;
+        StreamPair x = Due.inState(1);
+        Due.comes(x, 1, Due.forged(1, Due.SYN, 1000, 0, 50, options, NONE));
+        Due.is("the last option", x.about(1, 4), 400);
+        StreamPair y = Due.inState(4);
+        Due.comes(y, 1, Due.forged(1, Due.ACK, 1001, 5001, 50, options, new byte[3]));
+        Due.is("data behind it", y.about(1, 2), 3);
+        byte[] shorter = java.util.Arrays.copyOf(Due.forged(1, Due.ACK, 1001, 5001, 50, options, NONE), 59);
+        Due.mend(shorter);
+        dropped("a header of 60 bytes in 59", y, 1, shorter);
+        byte[] longOption = new byte[40];
+        longOption[0] = 9;
+        longOption[1] = 40;
+        StreamPair z = Due.inState(1);
+        Due.comes(z, 1, Due.forged(1, Due.SYN, 1000, 0, 50, longOption, NONE));
+        Due.is("an option of all the 40 bytes", z.about(1, 4), 4 * 536);
+    }
+
+    /** CLOSED is CLOSED, however it came to that. */
+    private static void step2AfterAll() {
+        for (int way = 0; way < 4; way++) {
+            StreamPair x = Due.inState(way < 2 ? 2 : 4);
+            if (way == 0) {
+                x.close(0);
+            } else if (way == 1) {
+                x.tick(1000000);
+            } else if (way == 2) {
+                x.abort(0);
+            } else {
+                Due.comes(x, 0, Due.RST, 5001, 0, 0, 0);
+            }
+            int end = x.about(0, 1);
+            Due.dropAll(x);
+            Due.comes(x, 0, Due.SYN | Due.ACK, 5000, 1001, 9, 0);
+            Due.segment("answer", x, 0, 1, 20, Due.RST, 1001, 0, 0);
+            Due.comes(x, 0, Due.FIN, -1, 1001, 9, 1);
+            Due.segment("answer", x, 1, 1, 20, Due.RST | Due.ACK, 0, 1, 0);
+            Due.is("CLOSED", x.about(0, 0), 0);
+            Due.is("its end stays", x.about(0, 1), end);
+        }
+    }
+
+    /** The SYN tells FAR, WL1 and WL2 in LISTEN and in SYN_SENT, whatever the window is. */
+    private static void windowsOfSyns() {
+        int[] windows = {0, 1, 65535};
+        for (int window : windows) {
+            StreamPair x = Due.inState(1);
+            Due.comes(x, 1, Due.SYN, 1000, 0, window, 0);
+            Due.is("FAR of END 1", x.about(1, 8), window);
+            StreamPair y = Due.inState(2);
+            Due.comes(y, 0, Due.SYN | Due.ACK, 5000, 1001, window, 0);
+            Due.is("FAR of END 0", y.about(0, 8), window);
+            Due.is("ESTABLISHED", y.about(0, 0), 4);
+        }
     }
 }

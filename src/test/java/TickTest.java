@@ -18,16 +18,17 @@ public final class TickTest {
         StreamPair x = new StreamPair();
         Due.is("tick(1)", x.tick(1), 1);
         Due.is("tick(1,000,000)", x.tick(1000000), 1000001);
+        Due.is("tick(999,999)", x.tick(999999), 2000000);
+        Due.is("tick(2)", x.tick(2), 2000002);
+        for (int i = 1; i <= 400; i++) {
+            Due.is("tick", x.tick(1000000), 2000002 + 1000000L * i);
+        }
         int[] wrong = {0, -1, 1000001, Integer.MAX_VALUE, Integer.MIN_VALUE};
         for (int n : wrong) {
-            Due.throwing("tick(" + n + ")", IllegalArgumentException.class, x, () -> x.tick(n));
+            Due.refused("tick(" + n + ")", IllegalArgumentException.class, StreamPair::new, y -> y.tick(n));
+            Due.refused("tick(" + n + ") with a timer", IllegalArgumentException.class, () -> Due.inState(2),
+                    y -> y.tick(n));
         }
-        long time = 1000001;
-        for (int i = 0; i < 2200; i++) {
-            time += 1000000;
-            Due.is("tick", x.tick(1000000), time);
-        }
-        Due.is("TIME modulo 2 to the 31st", x.count(0), time % (1L << 31));
     }
 
     private static void synIsSentAgain() {

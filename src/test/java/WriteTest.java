@@ -7,11 +7,11 @@ public final class WriteTest {
         wrongInputs();
         emptyTape();
         pushAndNumbers();
+        bytesInOrder();
         crowdLimits();
         windowLimits();
         smallPiecesWait();
         bothWays();
-        tooManyWait();
         Due.finish();
     }
 
@@ -33,11 +33,10 @@ public final class WriteTest {
     }
 
     private static void wrongInputs() {
-        StreamPair x = new StreamPair();
-        x.feed(1, 2, 3, 4, 5);
-        int[] noEnds = {-1, 2, Integer.MAX_VALUE, Integer.MIN_VALUE};
-        for (int e : noEnds) {
-            Due.throwing("write of no end", NoSuchElementException.class, x, () -> x.write(e));
+        for (int e : Due.NO_ENDS) {
+            Due.refused("write of no end", NoSuchElementException.class, () -> Due.joined(1, 2), x -> x.write(e));
+            Due.refused("write of no end when both are CLOSED", NoSuchElementException.class, StreamPair::new,
+                    x -> x.write(e));
         }
     }
 
@@ -53,16 +52,21 @@ public final class WriteTest {
         Due.is("write", Due.write(x, 0, 1600), 1600);
         Due.segment("first", x, 0, 1, 1480, Due.ACK, 1001, 5001, 65535);
         Due.segment("last", x, 1, 1, 160, Due.ACK | Due.PSH, 2461, 5001, 65535);
-        for (int i = 0; i < 1460; i++) {
-            Due.is("byte " + i, x.seen(0, 20 + i), Due.patternAt(i));
-        }
-        for (int i = 0; i < 140; i++) {
-            Due.is("byte " + (1460 + i), x.seen(1, 20 + i), Due.patternAt(1460 + i));
-        }
         Due.is("on the way", x.about(0, 14), 1600);
         Due.is("timer", x.about(0, 11), 200);
         Due.is("sent", x.about(0, 10), 4);
         Due.is("not acknowledged", x.about(0, 3), 1600);
+    }
+
+    private static void bytesInOrder() {
+        for (int from = 0; from < 1600; from += 200) {
+            StreamPair x = Due.joined(1000, 5000);
+            Due.write(x, 0, 1600);
+            for (int i = from; i < from + 200; i++) {
+                int k = i / 1460;
+                Due.is("byte " + i, x.seen(k, 20 + i - 1460 * k), Due.patternAt(i));
+            }
+        }
     }
 
     private static void crowdLimits() {
@@ -126,46 +130,5 @@ public final class WriteTest {
         Due.deliverAll(x);
         Due.is("unread", x.about(0, 2), 5);
         Due.is("unread", x.about(1, 2), 7);
-    }
-
-    /** More than 512 calls, since no fewer bring as many bytes. */
-    private static void tooManyWait() {
-        StreamPair x = Due.joined(0, 0);
-        Due.is("write", Due.write(x, 0, 65536), 65536);
-        Due.is("write", Due.write(x, 0, 65536), 65536);
-        Due.is("wait", x.about(0, 3), 131072);
-        Due.is("write of one when 131,072 wait", Due.write(x, 0, 1), 1);
-        x.feed(1, 2, 3, 4, 5);
-        Due.throwing("write when 131,073 wait", UnsupportedOperationException.class, x, () -> x.write(0));
-        x.deliver(0);
-        x.deliver(x.count(1) - 1);
-        Due.is("wait", x.about(0, 3), 131073 - 1460);
-        Due.is("write when fewer wait", Due.write(x, 0, 65536), 65536);
-        Due.is("wait", x.about(0, 3), 131073 - 1460 + 65536);
-        x.close(0);
-        Due.throwing("write of too many when closed", IllegalStateException.class, x, () -> x.write(0));
-        for (int i = 0; i < 100000 && (x.count(1) > 0 || x.about(0, 0) != 6); i++) {
-            if (x.count(1) > 0) {
-                x.deliver(0);
-            } else {
-                x.tick(1000);
-            }
-            takeAll(x);
-        }
-        Due.is("all went", taken, 65536 + 65536 + 1 + 65536);
-    }
-
-    private static int taken;
-
-    private static void takeAll(StreamPair x) {
-        while (x.about(1, 2) > 0) {
-            long answer = x.read(1, 7);
-            int n = (int) (answer >>> 56);
-            for (int i = n - 1; i >= 0; i--) {
-                int place = taken < 131072 ? taken % 65536 : taken == 131072 ? 0 : taken - 131073;
-                Due.is("byte " + taken, answer >>> 8 * i & 255, Due.patternAt(place));
-                taken++;
-            }
-        }
     }
 }
