@@ -154,6 +154,9 @@ final class Due {
         is(what + ": SEQ", seq(x, k), seq);
         is(what + ": ACK number", ack(x, k), ack);
         is(what + ": window", window(x, k), window);
+        is(what + ": port of END 1", number(x, k, to == 1 ? 2 : 0, 2), 443);
+        is(what + ": port of END 0", number(x, k, to == 1 ? 0 : 2, 2), 39999 + x.count(2));
+        is(what + ": data offset", x.seen(k, 12), (flags & SYN) != 0 ? 0x60 : 0x50);
         is(what + ": urgent pointer", number(x, k, 18, 2), 0);
         if (length <= 2 * BYTES_LOOKED_AT) {
             is(what + ": sum", sum(bytes(x, k)), 0xFFFF);

@@ -17,6 +17,7 @@ public final class LaterStepsTest {
         step10Edges();
         step12Edges();
         step13FullWindow();
+        step13AfterAFullWindow();
         Due.finish();
     }
 
@@ -330,5 +331,18 @@ public final class LaterStepsTest {
             x.drop(1);
         }
         return x;
+    }
+
+    /** 65,536 numbers after a byte that was read there is room for another. */
+    private static void step13AfterAFullWindow() {
+        StreamPair x = filled();
+        Due.is("read", x.read(1, 7) >>> 56, 7);
+        Due.write(x, 1, 1);
+        Due.is("window", x.about(1, 9), 7);
+        Due.comes(x, 1, Due.ACK, 1001 + 65535, 5001, 65535, 20);
+        Due.is("unread", x.about(1, 2), 65535);
+        Due.is("kept", x.about(1, 15), 0);
+        Due.is("window", x.about(1, 9), 0);
+        Due.is("ACK", Due.ack(x, x.count(1) - 1), 1001 + 65542);
     }
 }

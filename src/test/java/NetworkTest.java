@@ -13,6 +13,7 @@ public final class NetworkTest {
         flipsAtTheEnds();
         flipsOfShortSegments();
         mendsOddLengths();
+        mendsWithCarries();
         injectsRefused();
         injectsTheLongest();
         injects();
@@ -264,5 +265,28 @@ public final class NetworkTest {
         Due.throwing("seen behind its end", IndexOutOfBoundsException.class, x, () -> x.seen(0, 23));
         x.deliver(0);
         Due.is("read", x.read(1, 7) >>> 56, 3);
+    }
+
+    /** The sum before its carries are added, and the checksum that is due: adding them can make one more. */
+    private static void mendsWithCarries() {
+        int[][] cases = {{0x0FFFF, 0x0000}, {0x10000, 0xFFFE}, {0x1FFFD, 0x0001}, {0x1FFFE, 0x0000}, {0x1FFFF, 0xFFFE},
+            {0x20000, 0xFFFD}, {0x2FFFC, 0x0001}, {0x2FFFD, 0x0000}, {0x2FFFE, 0xFFFE}, {0x2FFFF, 0xFFFD},
+            {0x4FFFB, 0x0000}, {0x4FFFC, 0xFFFE}};
+        for (int[] one : cases) {
+            StreamPair x = new StreamPair();
+            byte[] row = new byte[20];
+            int left = one[0] - (0x0A00 + 1 + 0x0A00 + 2 + 6 + 20);
+            for (int at = 0; at < 16; at += 2) {
+                int word = Math.min(left, 0xFFFF);
+                Due.put(row, at, 2, word);
+                left -= word;
+            }
+            Due.lay(x, row);
+            x.inject(1);
+            String what = "checksum of " + Integer.toHexString(one[0]);
+            Due.is(what, x.flip(0, 19, 0, true), one[1]);
+            Due.is("sum", Due.sum(Due.bytes(x, 0)), 0xFFFF);
+            Due.is(what + " mended again", x.flip(0, 19, 0, true), one[1]);
+        }
     }
 }

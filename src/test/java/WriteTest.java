@@ -8,6 +8,8 @@ public final class WriteTest {
         emptyTape();
         pushAndNumbers();
         bytesInOrder();
+        bytesOfSeveralWrites();
+        bytesBehindAnAck();
         crowdLimits();
         windowLimits();
         smallPiecesWait();
@@ -130,5 +132,44 @@ public final class WriteTest {
         Due.deliverAll(x);
         Due.is("unread", x.about(0, 2), 5);
         Due.is("unread", x.about(1, 2), 7);
+    }
+
+    /** What waits is sent in its order, however many writes it came by. */
+    private static void bytesOfSeveralWrites() {
+        int[][] plans = {{30, 50, 100}, {64, 1, 64, 1}, {1, 63, 1}, {65, 64, 63}, {10, 0, 10}, {128, 127, 2}};
+        for (int[] plan : plans) {
+            StreamPair x = new StreamPair();
+            x.set(1, 0, 0);
+            Due.join(x, 1000, 5000);
+            int all = 0;
+            for (int n : plan) {
+                Due.lay(x, Due.pattern(all, n));
+                Due.is("write", x.write(0), n);
+                all += n;
+            }
+            Due.is("nothing is sent", x.count(1), 0);
+            Due.comes(x, 0, Due.ACK, 5001, 1001, 65535, 0);
+            Due.is("all at once", x.seen(0, -1), 20 + all);
+            Due.same("its bytes", Due.hex(Due.bytes(x, 0, 20, all)), Due.hex(Due.pattern(0, all)));
+        }
+    }
+
+    /** What was acknowledged makes room; what was not goes again as it was. */
+    private static void bytesBehindAnAck() {
+        int[] acknowledged = {1, 20, 39, 40, 41, 60, 79};
+        for (int n : acknowledged) {
+            StreamPair x = Due.joined(1000, 5000);
+            Due.lay(x, Due.pattern(0, 40));
+            x.write(0);
+            Due.lay(x, Due.pattern(40, 40));
+            x.write(0);
+            Due.comes(x, 0, Due.ACK, 5001, 1001 + n, 65535, 0);
+            Due.lay(x, Due.pattern(80, 60));
+            x.write(0);
+            Due.same("new bytes", Due.hex(Due.bytes(x, 2, 20, 60)), Due.hex(Due.pattern(80, 60)));
+            x.tick(1000);
+            Due.is("all the rest again", x.seen(3, -1), 20 + 140 - n);
+            Due.same("its bytes", Due.hex(Due.bytes(x, 3, 20, 140 - n)), Due.hex(Due.pattern(n, 140 - n)));
+        }
     }
 }
