@@ -364,16 +364,22 @@ public final class CrowdTest {
         Due.write(x, 0, 256);
         Due.dropAll(x);
         threeSame(x, 1001, 65535);
+        Due.comes(x, 0, Due.ACK, 5001, 1001, 65535, 3);
+        Due.is("data is answered as ever", Due.flags(x, 1), Due.ACK);
+        x.drop(1);
         for (int i = 4; i <= 8; i++) {
-            Due.comes(x, 0, Due.ACK, 5001, 1001, 65535, 0);
+            Due.comes(x, 0, Due.ACK, 5004, 1001, 65535, 0);
             Due.is("SAME", x.about(0, 12), i);
             Due.is("on their way", x.count(1), 1);
             Due.is("CWND", x.about(0, 4), 128);
         }
-        Due.comes(x, 0, Due.ACK, 5001, 1002, 65535, 0);
+        Due.comes(x, 0, Due.ACK, 5004, 1002, 65535, 0);
         Due.is("SAME", x.about(0, 12), 0);
         Due.dropAll(x);
-        threeSame(x, 1002, 65535);
+        for (int i = 0; i < 3; i++) {
+            Due.is("nothing before the third", x.count(1), 0);
+            Due.comes(x, 0, Due.ACK, 5004, 1002, 65535, 0);
+        }
         Due.is("three more", x.count(1), 1);
     }
 }

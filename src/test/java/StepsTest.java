@@ -21,6 +21,8 @@ public final class StepsTest {
         longestHeader();
         step2AfterAll();
         windowsOfSyns();
+        noChecksum();
+        answersLeaveTheWindow();
         Due.finish();
     }
 
@@ -518,6 +520,38 @@ public final class StepsTest {
             Due.comes(y, 0, Due.SYN | Due.ACK, 5000, 1001, window, 0);
             Due.is("FAR of END 0", y.about(0, 8), window);
             Due.is("ESTABLISHED", y.about(0, 0), 4);
+        }
+    }
+
+    /** 0 is a checksum as any other, not one that was left out. */
+    private static void noChecksum() {
+        StreamPair x = Due.inState(4);
+        byte[] row = Due.forged(1, Due.ACK, 1001, 5001, 9, NONE, new byte[] {1, 2, 3});
+        Due.put(row, 16, 2, 0);
+        dropped("a checksum of 0", x, 1, row);
+        Due.put(row, 16, 2, 0xFFFF);
+        dropped("a checksum of FFFF", x, 1, row);
+    }
+
+    /** An answer tells no window: EDGE stays, though ROOM has grown. */
+    private static void answersLeaveTheWindow() {
+        int[] states = {0, 2, 3};
+        for (int state : states) {
+            StreamPair x = new StreamPair();
+            int e = Due.endIn(state);
+            x.set(e, 0, 100);
+            x.open(1000, 5000);
+            if (state == 3) {
+                x.deliver(0);
+            } else if (state == 0) {
+                x.close(0);
+            }
+            Due.dropAll(x);
+            Due.is("state", x.about(e, 0), state);
+            x.set(e, 0, 500);
+            Due.comes(x, e, Due.ACK, e == 1 ? 1001 : 5001, 77, 9, 0);
+            Due.segment("answer in state " + state, x, 0, 1 - e, 20, Due.RST, 77, 0, 0);
+            Due.is("EDGE - RCV", x.about(e, 9), 100);
         }
     }
 }
