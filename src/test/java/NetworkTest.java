@@ -252,14 +252,29 @@ public final class NetworkTest {
         Due.is("seen at 22", withThree().seen(2, 22), Due.patternAt(2));
     }
 
-    /** Rows of segments that are gone serve again: nothing of the old ones may show. */
-    private static void nothingOldShows() {
-        StreamPair x = Due.joined(1000, 5000);
+    private static StreamPair afterALongOne(int state) {
+        StreamPair x = Due.inState(state);
         byte[] full = new byte[1484];
         java.util.Arrays.fill(full, (byte) 0xFF);
         Due.lay(x, full);
         x.inject(0);
         x.drop(0);
+        return x;
+    }
+
+    /** Whatever was on its way before: nothing of it shows in a segment that is sent. */
+    private static void nothingOldShows() {
+        StreamPair c = afterALongOne(4);
+        c.close(0);
+        Due.segment("FIN", c, 0, 1, 20, Due.FIN | Due.ACK, 1001, 5001, 65535);
+        StreamPair a = afterALongOne(4);
+        a.abort(0);
+        Due.segment("RST", a, 0, 1, 20, Due.RST | Due.ACK, 1001, 5001, 65535);
+        StreamPair s = afterALongOne(2);
+        s.tick(1000);
+        Due.segment("SYN", s, 0, 1, 24, Due.SYN, 1000, 0, 65535);
+        Due.is("its option", Due.number(s, 0, 20, 4), 0x020405B4);
+        StreamPair x = afterALongOne(4);
         Due.write(x, 0, 3);
         Due.segment("data", x, 0, 1, 23, Due.ACK | Due.PSH, 1001, 5001, 65535);
         Due.throwing("seen behind its end", IndexOutOfBoundsException.class, x, () -> x.seen(0, 23));

@@ -8,6 +8,7 @@ public final class SetTest {
         roomShrinksAndGrows();
         roomBeforeTheSyn();
         mssCountsFromTheNextSyn();
+        mssBetweenTheSyns();
         lesserMssCounts();
         endsOfTheRanges();
         mssAfterTheSyn();
@@ -100,6 +101,17 @@ public final class SetTest {
         x.set(0, 1, 200);
         x.tick(1000);
         Due.is("and the next", Due.number(x, 1, 20, 4), 0x020400C8);
+    }
+
+    /** The document leaves open whether this set counts: the next SYN is that of END 1, so here it does. */
+    private static void mssBetweenTheSyns() {
+        StreamPair x = new StreamPair();
+        x.open(1000, 5000);
+        x.set(0, 1, 100);
+        x.deliver(0);
+        x.deliver(0);
+        Due.is("CWND of END 0", x.about(0, 4), 400);
+        Due.is("CWND of END 1, who was told 1460", x.about(1, 4), 5840);
     }
 
     private static void lesserMssCounts() {
