@@ -343,6 +343,13 @@ public final class CrowdTest {
         z.tick(200);
         Due.is("on the way", z.about(0, 14), 60);
         goesAgain("to MAX, not to NXT", z, 1001, 100, Due.ACK | Due.PSH);
+        StreamPair b = withSegment64();
+        Due.write(b, 0, 30);
+        b.close(0);
+        Due.comes(b, 0, Due.ACK, 5001, 1001, 10, 0);
+        b.tick(200);
+        Due.is("on the way, with MAX behind the FIN", b.about(0, 14), 10);
+        goesAgain("the bytes to MAX, but not the FIN", b, 1001, 30, Due.ACK | Due.PSH);
         StreamPair f = withSegment64();
         Due.write(f, 0, 1);
         f.close(0);

@@ -20,6 +20,7 @@ public final class NetworkTest {
         longestComes();
         sees();
         nothingOldShows();
+        nothingIsShared();
         Due.finish();
     }
 
@@ -280,6 +281,26 @@ public final class NetworkTest {
         Due.throwing("seen behind its end", IndexOutOfBoundsException.class, x, () -> x.seen(0, 23));
         x.deliver(0);
         Due.is("read", x.read(1, 7) >>> 56, 3);
+    }
+
+    /** However segments went before, those on their way now have bytes of their own. */
+    private static void nothingIsShared() {
+        for (int way = 0; way < 3; way++) {
+            StreamPair x = withThree();
+            if (way == 0) {
+                Due.deliverAll(x);
+            } else if (way == 1) {
+                Due.dropAll(x);
+            }
+            x.open(1000, 5000);
+            for (int k = 1; k < 8; k++) {
+                x.copy(0);
+                x.flip(k, 8, k, false);
+            }
+            for (int k = 0; k < 8; k++) {
+                Due.is("what segment " + k + " was altered by", x.seen(k, 8), k);
+            }
+        }
     }
 
     /** The sum before its carries are added, and the checksum that is due: adding them can make one more. */

@@ -14,6 +14,7 @@ public final class ReadTest {
         windowAtASmallSegment();
         fewerThanAsked();
         noneInAnyState();
+        nothingIsToldWhenClosed();
         Due.finish();
     }
 
@@ -281,5 +282,39 @@ public final class ReadTest {
                         () -> x.read(e, 7));
             }
         }
+    }
+
+    /** What is CLOSED with UNREAD bytes reads on, but tells no window. */
+    private static void nothingIsToldWhenClosed() {
+        for (int way = 0; way < 3; way++) {
+            StreamPair x = new StreamPair();
+            x.set(0, 0, 10);
+            Due.join(x, 1000, 5000);
+            Due.comes(x, 0, Due.ACK, 5001, 1001, 65535, 9);
+            Due.is("EDGE - RCV", x.about(0, 9), 1);
+            breakOff(x, way);
+            Due.dropAll(x);
+            Due.is("CLOSED", x.about(0, 0), 0);
+            x.set(0, 0, 65535);
+            int sent = x.about(0, 10);
+            Due.is("read of what was broken off", x.read(0, 2) >>> 56, 2);
+            Due.is("read of what was broken off", x.read(0, 7) >>> 56, 7);
+            Due.throwing("read of none", UnsupportedOperationException.class, x, () -> x.read(0, 1));
+            Due.is("segments sent", x.about(0, 10), sent);
+            Due.is("EDGE - RCV", x.about(0, 9), 1);
+        }
+    }
+
+    /** END 0 is RESET by itself or by the other, or LOST. */
+    private static void breakOff(StreamPair x, int way) {
+        if (way == 0) {
+            x.abort(0);
+        } else if (way == 1) {
+            Due.comes(x, 0, Due.RST, 5010, 0, 0, 0);
+        } else {
+            Due.write(x, 0, 1);
+            x.tick(1000000);
+        }
+        Due.is("its end", x.about(0, 1), way == 2 ? 2 : 1);
     }
 }

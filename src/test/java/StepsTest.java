@@ -17,6 +17,7 @@ public final class StepsTest {
         step8NoAck();
         step9SynRcvd();
         step5Lengths();
+        step5ClosedWindow();
         step6Edges();
         longestHeader();
         step2AfterAll();
@@ -155,6 +156,8 @@ public final class StepsTest {
             {100, 2, 4, 0, 100, 1, 1, 1, 255},
             {536, 1, 2, 4, 0},
             {300, 254, 4, 2, 4, 2, 4, 1, 44},
+            {536, 3, 4, 0, 100}, {536, 254, 4, 0, 100}, {536, 255, 4, 0, 100},
+            {100, 2, 4, 0, 100, 3, 4, 0, 200},
         };
         for (int[] one : cases) {
             int n = (one.length - 1) / 4 * 4;
@@ -237,6 +240,12 @@ public final class StepsTest {
         Due.comes(x, 0, Due.ACK, 9, 1001, 50, 4);
         Due.comes(x, 0, Due.SYN, 9, 1001, 50, 0);
         Due.comes(x, 0, Due.FIN, 9, 1001, 50, 0);
+        for (int number : new int[] {0, 1000, 1002}) {
+            Due.comes(x, 0, Due.SYN, 9, number, 50, 0);
+            Due.comes(x, 0, Due.FIN, 9, number, 50, 3);
+            Due.comes(x, 0, Due.RST, 9, number, 50, 0);
+            Due.comes(x, 0, 0, 9, number, 50, 0);
+        }
         Due.is("others are not answered", x.count(1), 2);
         Due.is("SYN_SENT", x.about(0, 0), 2);
         Due.is("the timer runs", x.about(0, 11), 1000);
@@ -442,6 +451,31 @@ public final class StepsTest {
             String what = "flags " + one[0] + " SEQ " + one[1] + " data " + one[2];
             Due.is(what + " fits", x.about(1, 3), one[3] == 1 ? 5 : 10);
             Due.is(what + " is answered", x.count(1), 1);
+        }
+    }
+
+    /** With a closed window only SEQ RCV fits, and only without data; the UNREAD bytes do not matter. */
+    private static void step5ClosedWindow() {
+        int[][] cases = {{1000, 0, 0}, {1001, 0, 0}, {1010, 0, 0}, {1011, 0, 1}, {1012, 0, 0}, {1011, 1, 0},
+            {1001, 10, 0}, {1001, 11, 0}};
+        for (int[] one : cases) {
+            for (int read = 0; read <= 7; read += 7) {
+                StreamPair x = new StreamPair();
+                x.set(1, 0, 10);
+                Due.join(x, 1000, 5000);
+                Due.write(x, 1, 5);
+                Due.comes(x, 1, Due.ACK, 1001, 5001, 65535, 10);
+                Due.is("EDGE - RCV", x.about(1, 9), 0);
+                if (read > 0) {
+                    x.read(1, read);
+                }
+                Due.dropAll(x);
+                Due.comes(x, 1, Due.ACK, one[0], 5006, 777, one[1]);
+                String what = one[1] + " bytes at " + one[0] + " with " + x.about(1, 2) + " unread";
+                Due.is(what + ": not acknowledged", x.about(1, 3), one[2] == 1 ? 0 : 5);
+                Due.is(what + ": FAR", x.about(1, 8), one[2] == 1 ? 777 : 65535);
+                Due.is(what + ": answered", x.count(1), one[2] == 1 ? 0 : 1);
+            }
         }
     }
 

@@ -15,6 +15,8 @@ public final class WrapTest {
         windowNumbersAtTheSign();
         timedOverTheWrap();
         finOverTheWrap();
+        pushOverTheWrap();
+        sameOverTheWrap();
         Due.finish();
     }
 
@@ -198,6 +200,42 @@ public final class WrapTest {
             x.deliver(0);
             Due.is("FIN_WAIT_2", x.about(0, 0), 6);
             Due.is("nothing is on the way", x.about(0, 14), 0);
+        }
+    }
+
+    /** The last of three segments has PSH alone, wherever the numbers wrap between them. */
+    private static void pushOverTheWrap() {
+        for (int middle : new int[] {0, LEAST}) {
+            for (int before = 0; before <= 200; before += 8) {
+                StreamPair x = new StreamPair();
+                x.set(0, 1, 64);
+                Due.join(x, middle - before, 0);
+                Due.write(x, 0, 192);
+                Due.is("segments", x.count(1), 3);
+                for (int k = 0; k < 3; k++) {
+                    Due.is("flags of segment " + k + " from " + (middle - before), Due.flags(x, k),
+                            k == 2 ? Due.ACK | Due.PSH : Due.ACK);
+                }
+            }
+        }
+    }
+
+    /** UNA is 5 behind the first number: only an ACK of that number is the same again. */
+    private static void sameOverTheWrap() {
+        for (int middle : new int[] {0, LEAST}) {
+            for (int before = 0; before <= 12; before++) {
+                int first = middle - before;
+                StreamPair x = Due.joined(first, 0);
+                Due.write(x, 0, 10);
+                Due.comes(x, 0, Due.ACK, 1, first + 6, 65535, 0);
+                Due.is("not acknowledged", x.about(0, 3), 5);
+                for (int older = first - 1; older != first + 6; older++) {
+                    Due.comes(x, 0, Due.ACK, 1, older, 65535, 0);
+                    Due.is("SAME after an older number, " + older, x.about(0, 12), 0);
+                }
+                Due.comes(x, 0, Due.ACK, 1, first + 6, 65535, 0);
+                Due.is("SAME after the same", x.about(0, 12), 1);
+            }
         }
     }
 }
